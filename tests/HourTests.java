@@ -244,6 +244,17 @@ public final class HourTests {
         x = Kit.park("");
         x.hour(64);
         Kit.is(x, x.monday(), 0);
+        x = Kit.park("place z;place s;train a from z to s at 63 takes 5;train b from z to s at 62 takes 24;beast m out;"
+            + "beast n out;ticket m a;ticket n b;");
+        x.hour(64);
+        Kit.is(x, x.told(8), 3);
+        Kit.is(x, x.monday(), 3);
+        Kit.is(x, x.told(8), 0);
+        Kit.is(x, x.train(0, 6), 0);
+        Kit.is(x, x.at(0), 0);
+        Kit.is(x, x.at(1), 0);
+        x.hour(4);
+        Kit.is(x, x.there(0), 3);
     }
 
     private static void weekNineNineNine() {
@@ -395,6 +406,7 @@ public final class HourTests {
         Kit.not(x, x.mourn(0), 7);
         Kit.yes(x, x.mourn(1));
         Kit.is(x, x.at(1), 0);
+        Kit.is(x, x.there(0), 6);
         Kit.is(x, x.told(7), 0);
         Kit.is(x, x.beast(1, 5), 6);
         Kit.is(x, x.beast(1, 2), 1);

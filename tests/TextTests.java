@@ -117,6 +117,8 @@ public final class TextTests {
         Kit.parkFault("odds p;", 2, 5);
         Kit.parkFault("odds ;", 2, 5);
         Kit.parkFault("odds 2 3;", 2, 7);
+        Kit.parkFault("odds 2=", 2, 6);
+        Kit.parkFault("odds 2 59", 2, 7);
         Kit.parkFault(";", 2, 0);
         Kit.parkFault("odds 2;;", 2, 7);
         Kit.parkFault("hour 2;", 2, 0);

@@ -62,10 +62,12 @@ public final class TrayTests {
         Kit.yes(x, x.tray(0, 3, 60));
         Kit.is(x, x.read(0, 59), 0);
         Kit.yes(x, x.write(0, 59, 5));
+        Kit.yes(x, x.write(0, 0, 5));
         Kit.not(x, x.tray(0, 0, 61), 1);
         Kit.is(x, x.read(0, 59), 5);
         Kit.yes(x, x.tray(0, 3, 60));
         Kit.is(x, x.read(0, 59), 0);
+        Kit.is(x, x.read(0, 0), 0);
         Kit.yes(x, x.tray(0, 3, 0));
         Kit.none(x, x.read(0, 0), 3);
     }

@@ -67,6 +67,8 @@ public final class WeeksTests {
         Kit.is(x, x.told(6), 3);
         Kit.is(x, x.beast(2, 5), 18);
         Kit.is(x, x.told(5), 6);
+        Kit.is(x, x.live(5), 8);
+        livedIs(x, 2, 3, 0, 0, 0);
     }
 
     private static void missed() {

@@ -214,6 +214,15 @@ public final class WouldBeTests {
         Kit.is(x, x.soonest(0, 0, 2), 6);
         x.shift(0, 4);
         Kit.none(x, x.soonest(0, 0, 2), 6);
+        // The last one in the text goes first.
+        x = Kit.park("place z;place s;place r;place o;place p;train a from o to p at 9 takes 1;train b from r to o at 6 takes 3;"
+            + "train c from s to r at 4 takes 2;train d from z to s at 0 takes 4;");
+        Kit.is(x, x.soonest(0, 0, 4), 10);
+        Kit.is(x, x.soonestBy(0, 0, 4), 3);
+        Kit.is(x, x.latest(0, 4, 10), 0);
+        Kit.is(x, x.reach(), 31);
+        Kit.is(x, x.cut(4), 1);
+        Kit.is(x, x.cutSet(4), 1);
     }
 
     private static void soonestBy() {
@@ -222,6 +231,8 @@ public final class WouldBeTests {
         Kit.none(x, x.soonestBy(4, 0, 0), 1);
         Kit.none(x, x.soonestBy(0, 0, -1), 1);
         Kit.none(x, x.soonestBy(0, 64, 0), 1);
+        Kit.none(x, x.soonestBy(0, -1, 1), 1);
+        Kit.is(x, x.soonestBy(0, 5, 1), 0);
         Kit.none(x, x.soonestBy(1, 0, 1), 7);
         Kit.none(x, x.soonestBy(0, 6, 1), 6);
         Kit.none(x, x.soonestBy(3, 0, 1), 6);
@@ -258,6 +269,9 @@ public final class WouldBeTests {
         Kit.is(x, x.latest(0, 2, 2), 0);
         x.halt(1, true);
         Kit.none(x, x.latest(0, 2, 64), 6);
+        x = Kit.park("place z;place s;train a from z to s at 9 takes 2;train b from z to s at 5 takes 1;");
+        Kit.is(x, x.latest(0, 1, 64), 9);
+        Kit.is(x, x.latest(0, 1, 10), 5);
     }
 
     private static void stay() {
@@ -275,6 +289,11 @@ public final class WouldBeTests {
         Kit.none(x, x.stay(2), 6);
         x.shift(5, 41);
         Kit.none(x, x.stay(1), 6);
+        x = Kit.park("place z;place s;train a from z to s at 0 takes 2;train b from s to z at 60 takes 4;");
+        Kit.is(x, x.stay(1), 58);
+        Kit.is(x, x.reach(), 3);
+        Kit.is(x, x.cut(1), 1);
+        Kit.fraction(x, x.snow(1), 7, 8);
     }
 
     private static void reach() {
@@ -295,8 +314,13 @@ public final class WouldBeTests {
         // Nobody is there by HOUR 64.
         x = Kit.park("place z;place s;train a from z to s at 41 takes 24;");
         Kit.is(x, x.reach(), 1);
+        Kit.is(x, x.cut(1), 0);
+        Kit.fraction(x, x.snow(1), 0, 1);
         x.shift(0, 40);
         Kit.is(x, x.reach(), 3);
+        Kit.is(x, x.cut(1), 1);
+        Kit.is(x, x.cutSet(1), 1);
+        Kit.fraction(x, x.snow(1), 7, 8);
     }
 
     private static void cut() {
@@ -413,6 +437,10 @@ public final class WouldBeTests {
         Kit.is(x, x.rooms(7, 7), 2);
         x.hunt(2, 0, true);
         Kit.is(x, x.rooms(5, 72), 2);
+        x = Kit.park("place z;beast a;beast b;beast c;hunts a c;hunts b c;");
+        Kit.is(x, x.rooms(5, 72), 2);
+        Kit.is(x, x.rooms(6, 72), 2);
+        Kit.is(x, x.rooms(3, 72), 1);
         // First fit would need three: 5 4 2 3 into sevens.
         x = Kit.park("place z;beast a size 3;beast b size 2;beast c size 4;beast d size 5;");
         Kit.is(x, x.rooms(15, 7), 2);
@@ -479,6 +507,12 @@ public final class WouldBeTests {
         Kit.is(x, x.sets(1, 3, 0), 0);
         Kit.is(x, x.sets(1, 3, 2), 2);
         Kit.is(x, x.sets(1, 3, 3), 8);
+        // Told the latest first.
+        tell(x, 1, 64, 1, 1, 40, 2, 2, 13, 1, 1, 7, 2, 1, 6, 1, 0, 5, 1, 0);
+        Kit.is(x, x.slips(1, 6), 3);
+        Kit.is(x, x.sets(1, 6, 3), 2);
+        Kit.is(x, x.sure(1, 6, 3), 2);
+        Kit.is(x, x.sets(1, 6, 4), 5);
         // At HOUR 0 all are in PLACE 0.
         tell(x, 2, 0, 1, 0);
         Kit.is(x, x.slips(2, 1), 1);
