@@ -1,4 +1,5 @@
 import java.nio.charset.StandardCharsets;
+import java.util.List;
 
 /** What the tests share: parks and weeks as texts, and answers that are due. */
 final class Kit {
@@ -24,6 +25,25 @@ final class Kit {
             int i = 1;
             while (i + 1 < trace.length && trace[i].getClassName().equals("Kit")) { i++; }
             System.out.println(promise + " (" + trace[i] + "): answered " + got + ", due is " + want);
+        }
+    }
+
+    static void fail(String why) {
+        asked++;
+        wrong++;
+        System.out.println(promise + ": " + why);
+    }
+
+    /** What two objects tell: the first row that is not alike is a wrong answer. */
+    static void same(List<String> got, List<String> want) {
+        asked++;
+        for (int i = 0; i < Math.max(got.size(), want.size()); i++) {
+            String a = i < got.size() ? got.get(i) : "nothing";
+            String b = i < want.size() ? want.get(i) : "nothing";
+            if (!a.equals(b)) {
+                fail("changed: " + a + ", due is " + b);
+                return;
+            }
         }
     }
 
