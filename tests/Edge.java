@@ -159,7 +159,12 @@ final class Edge {
 
     /** Each quotation stands where it is said to stand, and no word of the document is left out. */
     static void end(String document) throws IOException {
+        if (!Files.exists(Path.of(document))) {
+            System.out.println("EdgeTests: " + tests + " sentences; without " + document + " their words are not compared");
+            return;
+        }
         Map<String, String> sections = sections(Files.readString(Path.of(document)));
+        if (sections.size() != 5 + 57) { Kit.fail("the document has " + sections.size() + " Terms and promises"); }
         for (String where : QUOTED.keySet()) {
             if (!sections.containsKey(where)) { Kit.fail("the document has no " + where); }
         }

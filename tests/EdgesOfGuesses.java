@@ -455,6 +455,16 @@ final class EdgesOfGuesses {
             Kit.is(x, x.latest(2, 0, 63), 4);
             Kit.is(x, x.latest(2, 0, 5), 4);
             Kit.none(x, x.latest(2, 0, 4), 6);
+            // By the second TRAIN of two, as long as it goes behind what comes ahead of it.
+            CageLeave y = Kit.park("place z;place s;place r;train a from s to r at 1 takes 1;train b from s to r at 9 takes 1;"
+                + "train c from z to s at 3 takes 1;");
+            Kit.is(y, y.latest(0, 2, 64), 3);
+            Kit.is(y, y.latest(0, 2, 10), 3);
+            Kit.none(y, y.latest(0, 2, 9), 6);
+            y.shift(1, 3);
+            Kit.none(y, y.latest(0, 2, 64), 6);
+            y.shift(2, 2);
+            Kit.is(y, y.latest(0, 2, 64), 2);
             // By r and back: at s by 10 one is who leaves r at 4.
             Kit.is(x, x.latest(2, 1, 10), 4);
             x.shift(0, 0);
@@ -547,6 +557,10 @@ final class EdgesOfGuesses {
             Kit.is(x, x.reach(), 15);
             x.shift(0, 6);
             Kit.is(x, x.reach(), 7);
+            // By a TRAIN that comes AT 64, as soonest() says.
+            x = Kit.park(ZS + "train a from z to s at 40 takes 24;");
+            Kit.is(x, x.reach(), 3);
+            Kit.is(x, x.soonest(0, 0, 1), 64);
             // From HOUR 0 on, whatever HOUR it is.
             x = at(ZS + "train a from z to s at 0 takes 1;", 64);
             Kit.is(x, x.reach(), 3);
@@ -568,6 +582,12 @@ final class EdgesOfGuesses {
             x = Kit.park("place z;place s;place r;train a from z to s at 1 takes 1;train b from z to s at 2 takes 1;train c from s to r at 8 takes 1;");
             Kit.is(x, x.cut(2), 1);
             Kit.is(x, x.cutSet(2), 4);
+            // By a TRAIN that goes AT 0, by one that comes AT 64.
+            CageLeave y = Kit.park(ZS + "train a from z to s at 0 takes 1;");
+            Kit.is(y, y.cut(1), 1);
+            y = Kit.park(ZS + "train a from z to s at 40 takes 24;");
+            Kit.is(y, y.cut(1), 1);
+            Kit.is(y, y.cutSet(1), 1);
             // HALTED more: what is so now is none of them.
             x.halt(0, true);
             Kit.is(x, x.cut(2), 1);
@@ -614,6 +634,11 @@ final class EdgesOfGuesses {
             x.halt(1, true);
             Kit.fraction(x, x.snow(2), 0, 1);
             Kit.fraction(x, x.snow(1), 3, 4);
+            // By a TRAIN that goes AT 0, by one that comes AT 64.
+            x = Kit.park(ZS + "train a from z to s at 0 takes 1;");
+            Kit.fraction(x, x.snow(1), 7, 8);
+            x = Kit.park(ZS + "train a from z to s at 40 takes 24;");
+            Kit.fraction(x, x.snow(1), 7, 8);
         });
         Edge.of("Promise 44", "The FRACTION is SNOW of a PLACE (1).", () -> {
             for (int p : new int[] {-1, 3, Integer.MIN_VALUE, Integer.MAX_VALUE}) { Edge.not(1, y -> y.snow(p)); }
@@ -639,10 +664,12 @@ final class EdgesOfGuesses {
     /** A FRACTION of small numbers, told without a common divisor. */
     private static void ratio(CageLeave x, boolean got, long top, long bottom) {
         Kit.yes(x, got);
-        Kit.due(x.top() * bottom, top * x.bottom());
-        Kit.due(x.bottom() > 0, true);
-        for (long d = 2; d <= x.bottom(); d++) {
-            if (x.top() % d == 0 && x.bottom() % d == 0) { Kit.fail(x.top() + " by " + x.bottom() + " have " + d + " in common"); }
+        long above = x.top();
+        long below = x.bottom();
+        Kit.due(above * bottom, top * below);
+        Kit.due(below > 0, true);
+        for (long d = 2; d <= below; d++) {
+            if (above % d == 0 && below % d == 0) { Kit.fail(above + " by " + below + " have " + d + " in common"); }
         }
     }
 

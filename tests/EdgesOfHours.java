@@ -354,6 +354,14 @@ final class EdgesOfHours {
             x = at(RIDE + "hunts m n;hunts o p;", 9);
             Kit.is(x, x.together(1, 3), 0);
             Kit.is(x, x.together(0, 2), 1);
+            // Where there are as many PLACES, TRAINS, BEASTS as may be.
+            x = Kit.park(Edge.FULL);
+            x.hour(9);
+            x.hunt(0, 5, true);
+            Kit.is(x, x.hour(1), 32);
+            Kit.is(x, x.together(0, 5), 0);
+            Kit.is(x, x.together(5, 7), 0);
+            Kit.is(x, x.together(1, 6), 1);
             // Two TRAINS of one way; one in PLACE 1, one on TRAIN 1; one in PLACE 0, one on TRAIN 0.
             x = at(ZS + "train a from z to s at 0 takes 1;train b from z to s at 0 takes 9;beast m out;beast n out;beast o;ticket m a;ticket n b;", 1);
             Kit.is(x, x.together(0, 1), 0);
@@ -763,6 +771,12 @@ final class EdgesOfHours {
             Kit.is(x, x.told(7), 0);
             Kit.is(x, x.beast(1, 3), 0);
             Kit.not(x, x.mourn(1), 7);
+            // Who is in PLACE 0 already stays there.
+            x = at("place z;place s;train a from z to s at 0 takes 5;beast m out;beast n out;beast o;beast p out;"
+                + "ticket m a;ticket n a;hunts m n;", 9);
+            Kit.is(x, x.there(0), 12);
+            Kit.yes(x, x.mourn(1));
+            Kit.is(x, x.there(0), 14);
             // In the midst of a WEEK it goes on from PLACE 0.
             x = at(RIDE + "train b from z to s at 9 takes 1;ticket n a b;hunts m n;", 5);
             Kit.is(x, x.told(7), 2);

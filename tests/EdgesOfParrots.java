@@ -80,6 +80,22 @@ final class EdgesOfParrots {
             CageLeave x = told(Kit.ZOO, 10, 1, 0, 40, 2, 2, 20, 1, 1);
             int[] due = {0, 1, 7, 8};
             for (int slips = 0; slips < 4; slips++) { Kit.is(x, x.sets(0, 3, slips), due[slips]); }
+            // The latest HOUR told first, or between two others.
+            int[][] hours = {{60, 13, 7}, {60, 7, 13}, {13, 60, 7}, {13, 7, 60}, {7, 60, 13}, {7, 13, 60}};
+            for (int[] h : hours) {
+                int[] three = new int[9];
+                for (int i = 0; i < 3; i++) {
+                    three[3 * i] = h[i];
+                    three[3 * i + 1] = h[i] == 7 ? 2 : 1;
+                    three[3 * i + 2] = 1;
+                }
+                x = told(Kit.ZOO, three);
+                Kit.is(x, x.sets(0, 3, 0), 2);
+                Kit.is(x, x.sure(0, 3, 0), 2);
+                Kit.is(x, x.sets(0, 3, 1), 2);
+                Kit.is(x, x.sets(0, 3, 2), 4);
+                Kit.is(x, x.slips(0, 3), 0);
+            }
             // A SLIP told twice counts twice.
             tell(x, 20, 1, 1, 20, 1, 1);
             Kit.is(x, x.sets(0, 2, 0), 2);

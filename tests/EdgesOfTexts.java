@@ -275,19 +275,28 @@ final class EdgesOfTexts {
             x = good(PQ + times("beast #;", 8) + "hunts a h;hunts h a;hunts h g;");
             Kit.is(x, x.beast(0, 6), 128);
             Kit.is(x, x.beast(7, 6), 65);
+            // Nobody at first, whatever the PARK ahead told.
+            Kit.is(x, Kit.tellPark(x, PQ + times("beast #;", 8)), 8);
+            for (int b = 0; b < 8; b++) { Kit.is(x, x.beast(b, 6), 0); }
         });
         Edge.of("Terms 1", "TICKET: a BEAST has TICKETS for TRAINS (none at first; told again: the latest).", () -> {
             String two = ALL + "train u from q to p at 5 takes 5;";
             int[] due = {0, 1, 2, 3, 2, 0, 3};
             String[] told = {"", "ticket b t;", "ticket b u;", "ticket b t u;", "ticket b t;ticket b u;", "ticket b t u;ticket b;",
                 "ticket b t;ticket b t u;"};
+            CageLeave x = null;
             for (int i = 0; i < due.length; i++) {
-                CageLeave x = good(two + told[i]);
+                x = good(two + told[i]);
                 Kit.is(x, x.beast(0, 5), due[i]);
                 Kit.is(x, x.beast(1, 5), 0);
             }
+            // None at first, whatever the PARK ahead told.
+            x = good(two + "ticket b t u;ticket c t;");
+            Kit.is(x, Kit.tellPark(x, two), 2);
+            Kit.is(x, x.beast(0, 5), 0);
+            Kit.is(x, x.beast(1, 5), 0);
             // Of one told when fewer TRAINS were there.
-            CageLeave x = good(ALL + "ticket c t;train u from q to p at 5 takes 5;ticket b u;");
+            x = good(ALL + "ticket c t;train u from q to p at 5 takes 5;ticket b u;");
             Kit.is(x, x.beast(1, 5), 1);
         });
         Edge.of("Terms 1", "All are numbered as they stand; what a PART names must be told ahead.", () -> {
@@ -387,6 +396,8 @@ final class EdgesOfTexts {
             Kit.is(x, x.told(6), 5);
             Kit.is(x, x.beast(1, 2), 0);
             Kit.is(x, x.beast(2, 2), 1);
+            Kit.is(x, Kit.tellPark(x, "place p;beast b;beast c out;"), 2);
+            Kit.is(x, x.told(6), 2);
         });
     }
 
@@ -517,6 +528,20 @@ final class EdgesOfTexts {
                 bad(ALL + "ticket b ", 3, no + ";");
                 bad(ALL + "ticket b t ", 3, no + ";");
             }
+            // A NAME that only the text ahead told, whether that was taken or not.
+            for (String ahead : new String[] {PQ + "beast b;beast c;", PQ + "beast b;beast c;="}) {
+                CageLeave x = new CageLeave();
+                Kit.tellPark(x, ahead);
+                Kit.none(x, Kit.tellPark(x, PQ + "beast b;hunts b c;"), 9);
+                faultIs(x, 3, 32);
+                Kit.none(x, Kit.tellPark(x, "place p;train t from p to q at 1 takes 1;"), 9);
+                faultIs(x, 3, 26);
+                Kit.is(x, Kit.tellPark(x, "place c;place b;"), 0);
+            }
+            // Where all the NAMES are told that there may be.
+            bad(Edge.FULL + "hunts i ", 3, "q;");
+            bad(Edge.FULL + "hunts ", 3, "q i;");
+            bad(Edge.FULL + "ticket i ", 3, "q;");
         });
         Edge.of("Terms 1", "A beast without a place told ahead: 3 (at its NAME).", () -> {
             bad("beast ", 3, "b;");

@@ -371,6 +371,11 @@ final class EdgesOfTrays {
             Kit.is(x, x.hour(6), 0);
             Kit.is(x, x.copyPlaces(3), 8);
             row(x, 3, 1, 2, 3, 4, 5, 15, 16, 17);
+            x.hour(3);
+            x.hunt(0, 5, true);
+            Kit.is(x, x.hour(1), 32);
+            Kit.is(x, x.copyPlaces(3), 8);
+            row(x, 3, 1, 2, 3, 4, 5, -1, 2, 17);
         });
         Edge.of("Promise 52", "(1; 2; 3).", () -> {
             for (int t : NO_TRAY) { Edge.none(1, x -> x.copyPlaces(t)); }

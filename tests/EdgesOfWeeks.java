@@ -452,6 +452,14 @@ final class EdgesOfWeeks {
             // Each time anew, if it is come to again.
             Kit.due(stepsOf("loop 3;loop 2;any;end;end;"), 1 + 3 * 3);
             Kit.due(stepsOf("loop 2;loop 3;loop 4;any;end;end;any;end;"), 1 + 2 * (1 + 3 * 5 + 1));
+            // What was left of a loop that was stopped is nothing to WEEKS told later.
+            x = good("loop 9;hour 1;stop;end;");
+            Kit.is(x, x.live(0), 3);
+            Kit.is(x, Kit.tellWeeks(x, "when clock=1;hour 1;end;"), 2);
+            Kit.is(x, x.live(0), 2);
+            Kit.is(x, Kit.tellWeeks(x, "loop 2;hour 1;end;"), 2);
+            Kit.is(x, x.live(0), 3);
+            Kit.is(x, x.told(5), 4);
             Kit.due(stepsOf("loop 9;stop;end;any;"), 2);
             Kit.due(stepsOf("stop;any;"), 1);
             x = good("loop 9;hour 1;when clock=3;stop;end;end;");
@@ -644,6 +652,10 @@ final class EdgesOfWeeks {
             x.halt(3, true);
             Kit.is(x, x.live(0), 7);
             livedIs(x, 2, 133, 1, 2, 0);
+            // Of what is not MISSED.
+            CageLeave y = good("hour 64;monday;buy l b;let l;halt a;any;when eaten l;end;when clock=0;end;loop 2;end;stop;");
+            Kit.is(y, y.live(0), 10);
+            livedIs(y, 0, 64, 1, 0, 0);
             // Neither what is refused nor what is done otherwise counts.
             Kit.none(x, x.live(-1), 1);
             x.mean(0, 20);

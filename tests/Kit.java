@@ -13,7 +13,24 @@ final class Kit {
     private static int asked = 0;
     private static String promise = "";
 
+    static { watch(); }
+
     private Kit() { }
+
+    /** A call that never ends would keep the tests waiting for ever: after five minutes they fail. */
+    private static void watch() {
+        Thread watcher = new Thread(() -> {
+            try {
+                Thread.sleep(300_000);
+            } catch (InterruptedException e) {
+                return;
+            }
+            System.out.println(promise + ": did not end");
+            Runtime.getRuntime().halt(1);
+        });
+        watcher.setDaemon(true);
+        watcher.start();
+    }
 
     static void promise(String name) { promise = name; }
 
