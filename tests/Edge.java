@@ -29,8 +29,10 @@ final class Edge {
         + "beast i out;beast j out;beast k out;beast l out;beast m out;beast n out;beast o out;beast p out;"
         + "ticket i a;ticket j b;ticket k c;ticket l d;ticket m e;ticket n f;ticket o g;ticket p h;";
 
-    /** What no set, number, PLACE .. can be, behind the bounds and far out. */
-    static final int[] FAR = {Integer.MIN_VALUE, -1, Integer.MAX_VALUE};
+    static final String ZS = "place z;place s;";
+    /** Four BEASTS on one TRAIN, that gets to s at 5. */
+    static final String RIDE = ZS + "train a from z to s at 0 takes 5;beast m out;beast n out;beast o out;beast p out;"
+        + "ticket m a;ticket n a;ticket o a;ticket p a;";
 
     private static final Map<String, List<String>> QUOTED = new TreeMap<>();
     private static int tests = 0;
@@ -47,6 +49,26 @@ final class Edge {
         } catch (RuntimeException | StackOverflowError thrown) {
             Kit.fail("threw " + thrown);
         }
+    }
+
+    // ---- parks
+
+    static CageLeave at(String park, int hour) {
+        CageLeave x = Kit.park(park);
+        if (hour > 0) { x.hour(hour); }
+        return x;
+    }
+
+    /** A part so many times, each with another letter for #, from a on. */
+    static String times(String part, int many) {
+        StringBuilder s = new StringBuilder();
+        for (int i = 0; i < many; i++) { s.append(part.replace('#', (char) ('a' + i))); }
+        return s.toString();
+    }
+
+    /** Whether a TOKEN begins with a byte. */
+    static boolean begins(int c) {
+        return c >= 'a' && c <= 'z' || c >= '0' && c <= '9' || c == ';' || c == '<' || c == '>' || c == '=';
     }
 
     // ---- calls that are refused

@@ -1,14 +1,5 @@
 /** Sentences of "Terms" 3 and promises 29 to 51. */
 final class EdgesOfGuesses {
-    private static final String ZS = "place z;place s;";
-    /** Four BEASTS on one TRAIN, that gets to s at 5. */
-    private static final String RIDE = ZS + "train a from z to s at 0 takes 5;beast m out;beast n out;beast o out;beast p out;"
-        + "ticket m a;ticket n a;ticket o a;ticket p a;";
-    /** Two ways to s, one to r and back; o can't be left; r to s arrives too late. */
-    private static final String NET = "odds 8;place z;place s;place r;place o;train a from z to s at 5 takes 5;"
-        + "train b from z to r at 2 takes 2;train c from r to z at 4 takes 1;train d from z to s at 5 takes 5;"
-        + "train e from s to o at 10 takes 24;train f from s to z at 40 takes 24;train g from r to s at 63 takes 2;"
-        + "train h from r to z at 63 takes 1;";
     private static final int[] NO_BEAST = {Integer.MIN_VALUE, -1, 3, Integer.MAX_VALUE};
     private static final int[] NO_SET = {Integer.MIN_VALUE, -1, 8, 9, 256, Integer.MAX_VALUE};
 
@@ -36,23 +27,11 @@ final class EdgesOfGuesses {
         EdgesOfParrots.go();
     }
 
-    private static CageLeave at(String park, int hour) {
-        CageLeave x = Kit.park(park);
-        if (hour > 0) { x.hour(hour); }
-        return x;
-    }
-
-    private static String times(String part, int many) {
-        StringBuilder s = new StringBuilder();
-        for (int i = 0; i < many; i++) { s.append(part.replace('#', (char) ('a' + i))); }
-        return s.toString();
-    }
-
     private static void where() {
         Edge.of("Terms 3", "As it goes on from now to HOUR 64 of this WEEK, nothing else done:", () -> {
             CageLeave x = Kit.park(Kit.ZOO);
             for (int t = 0; t <= 64; t++) {
-                CageLeave y = at(Kit.ZOO, t);
+                CageLeave y = Edge.at(Kit.ZOO, t);
                 for (int b = 0; b < 3; b++) { Kit.due(x.where(b, t), y.at(b)); }
             }
             Kit.is(x, x.told(5), 0);
@@ -64,7 +43,7 @@ final class EdgesOfGuesses {
             x.halt(1, true);
             Kit.is(x, x.where(1, 64), 0);
             // Of this WEEK: on the next one nothing is told.
-            x = at(RIDE, 64);
+            x = Edge.at(Edge.RIDE, 64);
             Kit.is(x, x.where(0, 64), 1);
             x.monday();
             Kit.is(x, x.where(0, 0), 0);
@@ -72,13 +51,13 @@ final class EdgesOfGuesses {
         });
         Edge.of("Terms 3", "WHERE somebody is at an HOUR (no sooner than now; at HOUR t: when t is HOUR, ahead of what goes by in it:"
             + " who arrives at t is on the TRAIN still, at HOUR 64, too);", () -> {
-            CageLeave x = Kit.park(RIDE);
+            CageLeave x = Kit.park(Edge.RIDE);
             Kit.is(x, x.where(0, 0), 0);
             Kit.is(x, x.where(0, 1), 10);
             Kit.is(x, x.where(0, 5), 10);
             Kit.is(x, x.where(0, 6), 1);
             for (int takes = 1; takes <= 3; takes++) {
-                x = Kit.park(ZS + "train a from z to s at 62 takes " + takes + ";beast m out;ticket m a;");
+                x = Kit.park(Edge.ZS + "train a from z to s at 62 takes " + takes + ";beast m out;ticket m a;");
                 Kit.is(x, x.where(0, 62), 0);
                 Kit.is(x, x.where(0, 63), 10);
                 Kit.is(x, x.where(0, 64), takes == 1 ? 1 : 10);
@@ -103,7 +82,7 @@ final class EdgesOfGuesses {
             Kit.is(x, x.where(1, 12), 12);
             Edge.none(() -> Kit.park(Kit.ZOO), 6, y -> y.where(1, 13));
             Edge.none(() -> Kit.park(Kit.ZOO), 6, y -> y.where(1, 64));
-            Edge.none(() -> at(RIDE, 64), 1, y -> y.where(0, 63));
+            Edge.none(() -> Edge.at(Edge.RIDE, 64), 1, y -> y.where(0, 63));
             Edge.none(CageLeave::new, 1, y -> y.where(0, 0));
             x = Kit.park(Edge.FULL);
             for (int b = 0; b < 8; b++) { Kit.is(x, x.where(b, 1), 10 + b); }
@@ -113,7 +92,7 @@ final class EdgesOfGuesses {
     private static void eaten() {
         Edge.of("Promise 30", "At which HOUR a BEAST is EATEN, that which goes by then (1; 6: not in this WEEK, or already).", () -> {
             for (int t : new int[] {0, 1, 62, 63}) {
-                CageLeave x = Kit.park(ZS + "train a from z to s at " + t + " takes 5;beast m out;beast n out;ticket m a;ticket n a;hunts m n;");
+                CageLeave x = Kit.park(Edge.ZS + "train a from z to s at " + t + " takes 5;beast m out;beast n out;ticket m a;ticket n a;hunts m n;");
                 Kit.is(x, x.eatenAt(1), t);
                 if (t > 0) { x.hour(t); }
                 Kit.is(x, x.eatenAt(1), t);
@@ -123,35 +102,35 @@ final class EdgesOfGuesses {
             for (int b : NO_BEAST) { Edge.none(1, y -> y.eatenAt(b)); }
             Edge.none(6, y -> y.eatenAt(0));
             Edge.none(6, y -> y.eatenAt(1));
-            Edge.none(() -> at(Kit.ZOO, 64), 6, y -> y.eatenAt(1));
+            Edge.none(() -> Edge.at(Kit.ZOO, 64), 6, y -> y.eatenAt(1));
             Edge.none(CageLeave::new, 1, y -> y.eatenAt(0));
             // Not in this WEEK, but in the next one.
-            CageLeave x = at(RIDE, 64);
+            CageLeave x = Edge.at(Edge.RIDE, 64);
             x.hunt(0, 1, true);
             Kit.none(x, x.eatenAt(1), 6);
             x.monday();
             Kit.is(x, x.eatenAt(1), 0);
         });
         Edge.of("Promise 31", "By whom (1; 6).", () -> {
-            CageLeave x = Kit.park(RIDE + "hunts p m;hunts o m;hunts m n;");
+            CageLeave x = Kit.park(Edge.RIDE + "hunts p m;hunts o m;hunts m n;");
             Kit.is(x, x.eater(0), 2);
             Kit.none(x, x.eater(1), 6);
             Kit.none(x, x.eater(2), 6);
             x = Kit.park(Kit.ZOO);
             Kit.is(x, x.eater(1), 0);
-            x = Kit.park(RIDE + "hunts p m;");
+            x = Kit.park(Edge.RIDE + "hunts p m;");
             Kit.is(x, x.eater(0), 3);
             for (int b : NO_BEAST) { Edge.none(1, y -> y.eater(b)); }
             Edge.none(6, y -> y.eater(0));
             Edge.none(6, y -> y.eater(1));
-            Edge.none(() -> at(Kit.ZOO, 13), 6, y -> y.eater(1));
+            Edge.none(() -> Edge.at(Kit.ZOO, 13), 6, y -> y.eater(1));
             Edge.none(CageLeave::new, 1, y -> y.eater(0));
         });
     }
 
     private static void meet() {
         Edge.of("Terms 3", "MEET: the first such HOUR at which two are TOGETHER.", () -> {
-            CageLeave x = Kit.park(RIDE);
+            CageLeave x = Kit.park(Edge.RIDE);
             Kit.is(x, x.meet(0, 1), 1);
             x.hour(1);
             Kit.is(x, x.meet(0, 1), 1);
@@ -159,10 +138,10 @@ final class EdgesOfGuesses {
             Kit.is(x, x.meet(0, 1), 63);
             x.hour(1);
             Kit.is(x, x.meet(0, 1), 64);
-            x = Kit.park(ZS + "train a from z to s at 63 takes 1;beast m out;beast n out;ticket m a;ticket n a;");
+            x = Kit.park(Edge.ZS + "train a from z to s at 63 takes 1;beast m out;beast n out;ticket m a;ticket n a;");
             Kit.is(x, x.meet(1, 0), 64);
             // Who is there as the other one comes at t is seen with it at t and 1.
-            x = Kit.park(ZS + "train a from z to s at 0 takes 5;train b from z to s at 1 takes 5;beast m out;beast n out;ticket m a;ticket n b;");
+            x = Kit.park(Edge.ZS + "train a from z to s at 0 takes 5;train b from z to s at 1 takes 5;beast m out;beast n out;ticket m a;ticket n b;");
             Kit.is(x, x.meet(0, 1), 7);
         });
         Edge.of("Promise 32", "MEET (1: one and itself, too; 6: never).", () -> {
@@ -178,10 +157,10 @@ final class EdgesOfGuesses {
             Edge.none(6, y -> y.meet(0, 1));
             Edge.none(6, y -> y.meet(0, 2));
             // In PLACE 0 nobody meets; nor does who is EATEN at once.
-            Edge.none(() -> Kit.park(ZS + "beast m out;beast n out;"), 6, y -> y.meet(0, 1));
-            Edge.none(() -> Kit.park(RIDE + "hunts m n;"), 6, y -> y.meet(0, 1));
+            Edge.none(() -> Kit.park(Edge.ZS + "beast m out;beast n out;"), 6, y -> y.meet(0, 1));
+            Edge.none(() -> Kit.park(Edge.RIDE + "hunts m n;"), 6, y -> y.meet(0, 1));
             // What was is not asked.
-            CageLeave x = at(ZS + "train a from z to s at 0 takes 1;train b from s to z at 2 takes 1;beast m out;beast n out;ticket m a b;ticket n a;", 2);
+            CageLeave x = Edge.at(Edge.ZS + "train a from z to s at 0 takes 1;train b from s to z at 2 takes 1;beast m out;beast n out;ticket m a b;ticket n a;", 2);
             Kit.is(x, x.meet(0, 1), 2);
             x.hour(1);
             Kit.none(x, x.meet(0, 1), 6);
@@ -190,23 +169,23 @@ final class EdgesOfGuesses {
 
     private static void lateBy() {
         Edge.of("Promise 33", "The set of BEASTS that would be LATE at the end of this WEEK.", () -> {
-            String back = ZS + "train a from z to s at 0 takes 2;train b from s to z at 60 takes 4;train c from s to z at 61 takes 4;"
+            String back = Edge.ZS + "train a from z to s at 0 takes 2;train b from s to z at 60 takes 4;train c from s to z at 61 takes 4;"
                 + "beast m out;beast n out;beast o out;beast p;ticket m a b;ticket n a c;ticket o a;ticket p a;";
             for (int now : new int[] {0, 1, 30, 60, 63, 64}) {
-                CageLeave x = at(back, now);
+                CageLeave x = Edge.at(back, now);
                 Kit.is(x, x.lateBy(), 6);
                 Kit.is(x, x.told(10), 0);
                 Kit.is(x, x.told(4), 0);
                 Kit.is(x, x.told(5), now);
             }
-            CageLeave x = at(back, 64);
+            CageLeave x = Edge.at(back, 64);
             Kit.is(x, x.monday(), 6);
             x.let(2, false);
             Kit.is(x, x.lateBy(), 2);
             // Who is EATEN ahead of it is not LATE.
-            x = Kit.park(RIDE + "hunts m n;");
+            x = Kit.park(Edge.RIDE + "hunts m n;");
             Kit.is(x, x.lateBy(), 13);
-            x = at(RIDE + "hunts m n;", 9);
+            x = Edge.at(Edge.RIDE + "hunts m n;", 9);
             Kit.is(x, x.lateBy(), 13);
             x = Kit.park(Edge.FULL);
             Kit.is(x, x.lateBy(), 255);
@@ -217,7 +196,7 @@ final class EdgesOfGuesses {
 
     private static void lettingOut() {
         Edge.of("Terms 3", "LETTING OUT a set of BEASTS: as if it was HOUR 0, all not EATEN in PLACE 0, just these let OUT:", () -> {
-            CageLeave x = at(RIDE + "hunts m n;hunts o p;", 64);
+            CageLeave x = Edge.at(Edge.RIDE + "hunts m n;hunts o p;", 64);
             // n and p are EATEN; m, o are in s now, and OUT.
             Kit.is(x, x.told(7), 10);
             x.hunt(0, 2, true);
@@ -230,7 +209,7 @@ final class EdgesOfGuesses {
             Kit.is(x, x.eatenBy(5), 0);
             Kit.is(x, x.there(1), 5);
             Kit.is(x, x.told(6), 15);
-            x = at(RIDE, 9);
+            x = Edge.at(Edge.RIDE, 9);
             x.hunt(0, 1, true);
             Kit.is(x, x.eatenBy(3), 2);
             x.let(0, false);
@@ -239,14 +218,14 @@ final class EdgesOfGuesses {
             Kit.is(x, x.eatenBy(2), 0);
         });
         Edge.of("Terms 3", "PEACE, if nobody is EATEN in the WEEK.", () -> {
-            CageLeave x = Kit.park(RIDE + "hunts m n;");
+            CageLeave x = Kit.park(Edge.RIDE + "hunts m n;");
             for (int set = 0; set < 16; set++) { Kit.is(x, x.peace(set), (set & 3) == 3 ? 0 : 1); }
             // In its first HOUR, and in its last one; at HOUR 64 nobody is.
             for (int t = 0; t <= 63; t += 21) {
-                x = Kit.park(ZS + "train a from z to s at " + t + " takes 9;beast m;beast n;ticket m a;ticket n a;hunts n m;");
+                x = Kit.park(Edge.ZS + "train a from z to s at " + t + " takes 9;beast m;beast n;ticket m a;ticket n a;hunts n m;");
                 Kit.is(x, x.peace(3), 0);
             }
-            x = Kit.park(ZS + "train a from z to s at 40 takes 24;train b from z to s at 41 takes 22;beast m;beast n;ticket m a;ticket n b;hunts n m;");
+            x = Kit.park(Edge.ZS + "train a from z to s at 40 takes 24;train b from z to s at 41 takes 22;beast m;beast n;ticket m a;ticket n b;hunts n m;");
             Kit.is(x, x.peace(3), 1);
             x.shift(0, 39);
             Kit.is(x, x.peace(3), 0);
@@ -269,7 +248,7 @@ final class EdgesOfGuesses {
             CageLeave x = Kit.park(Kit.ZOO);
             int[] due = {0, 0, 0, 2, 0, 0, 0, 2};
             for (int set = 0; set < 8; set++) { Kit.is(x, x.eatenBy(set), due[set]); }
-            x = Kit.park(RIDE + "hunts p o;hunts o n;hunts n m;");
+            x = Kit.park(Edge.RIDE + "hunts p o;hunts o n;hunts n m;");
             Kit.is(x, x.eatenBy(15), 7);
             Kit.is(x, x.eatenBy(13), 4);
             Kit.is(x, x.eatenBy(5), 0);
@@ -284,7 +263,7 @@ final class EdgesOfGuesses {
 
     private static void most() {
         Edge.of("Terms 3", "MOST: the greatest set of BEASTS not EATEN that is let OUT in PEACE; of several the least as a number (1 for BEAST 0 ..).", () -> {
-            String ark = ZS + "train a from z to s at 0 takes 5;beast m;beast n;beast o;beast p;ticket m a;ticket n a;ticket o a;ticket p a;";
+            String ark = Edge.ZS + "train a from z to s at 0 takes 5;beast m;beast n;beast o;beast p;ticket m a;ticket n a;ticket o a;ticket p a;";
             CageLeave x = Kit.park(ark);
             Kit.is(x, x.most(), 15);
             x = Kit.park(ark + "hunts m n;");
@@ -312,7 +291,7 @@ final class EdgesOfGuesses {
             Kit.is(x, x.told(5), 5);
             Kit.is(x, x.told(6), 7);
             // All are EATEN but the one that ate them.
-            x = at(RIDE + "hunts p m;hunts p n;hunts p o;", 1);
+            x = Edge.at(Edge.RIDE + "hunts p m;hunts p n;hunts p o;", 1);
             Kit.is(x, x.most(), 8);
         });
     }
@@ -334,7 +313,7 @@ final class EdgesOfGuesses {
             Kit.none(x, x.soonest(0, 0, 2), 6);
             Kit.is(x, x.soonest(0, 0, 1), 5);
             // SEATS are not asked: somebody sits on it just now.
-            x = at(way + "beast m out;ticket m a;", 4);
+            x = Edge.at(way + "beast m out;ticket m a;", 4);
             Kit.is(x, x.train(0, 6), 1);
             Kit.is(x, x.soonest(0, 0, 2), 6);
             Kit.is(x, x.cut(2), 1);
@@ -355,7 +334,7 @@ final class EdgesOfGuesses {
 
     private static void soonest() {
         Edge.of("Terms 3", "SOONEST: at which HOUR one who is at a PLACE at an HOUR (0 to 63) can be at another one, 64 at the latest;", () -> {
-            CageLeave x = Kit.park(NET);
+            CageLeave x = Kit.park(Kit.NET);
             Kit.is(x, x.soonest(0, 0, 1), 10);
             Kit.is(x, x.soonest(0, 5, 1), 10);
             Kit.none(x, x.soonest(0, 6, 1), 6);
@@ -367,7 +346,7 @@ final class EdgesOfGuesses {
             Kit.none(x, x.soonest(1, 0, 0), 6);
         });
         Edge.of("Promise 37", "SOONEST (the HOUR itself, if it is the PLACE itself) (1; 6: not by HOUR 64).", () -> {
-            CageLeave x = Kit.park(NET);
+            CageLeave x = Kit.park(Kit.NET);
             for (int p = 0; p < 4; p++) {
                 for (int t : new int[] {0, 1, 62, 63}) { Kit.is(x, x.soonest(p, t, p), t); }
             }
@@ -380,10 +359,10 @@ final class EdgesOfGuesses {
                 Edge.none(1, y -> y.soonest(0, t, 1));
                 Edge.none(1, y -> y.soonest(0, t, 0));
             }
-            Edge.none(() -> Kit.park(NET), 6, y -> y.soonest(3, 0, 0));
-            Edge.none(() -> Kit.park(NET), 6, y -> y.soonest(0, 6, 1));
-            Edge.none(() -> Kit.park(ZS + "train a from z to s at 41 takes 24;"), 6, y -> y.soonest(0, 0, 1));
-            x = Kit.park(ZS + "train a from z to s at 40 takes 24;");
+            Edge.none(() -> Kit.park(Kit.NET), 6, y -> y.soonest(3, 0, 0));
+            Edge.none(() -> Kit.park(Kit.NET), 6, y -> y.soonest(0, 6, 1));
+            Edge.none(() -> Kit.park(Edge.ZS + "train a from z to s at 41 takes 24;"), 6, y -> y.soonest(0, 0, 1));
+            x = Kit.park(Edge.ZS + "train a from z to s at 40 takes 24;");
             Kit.is(x, x.soonest(0, 0, 1), 64);
             Kit.is(x, x.soonest(0, 40, 1), 64);
             // The HOUR that it is now does not matter.
@@ -398,7 +377,7 @@ final class EdgesOfGuesses {
 
     private static void soonestBy() {
         Edge.of("Terms 3", "of all the TRAINS that can be the first of such a way the least.", () -> {
-            CageLeave x = Kit.park(NET);
+            CageLeave x = Kit.park(Kit.NET);
             Kit.is(x, x.soonestBy(0, 5, 1), 0);
             x.halt(0, true);
             Kit.is(x, x.soonestBy(0, 5, 1), 3);
@@ -433,22 +412,22 @@ final class EdgesOfGuesses {
                 Edge.none(7, y -> y.soonestBy(same, 0, same));
                 Edge.none(7, y -> y.soonestBy(same, 63, same));
             }
-            Edge.none(() -> Kit.park(NET), 6, y -> y.soonestBy(3, 0, 0));
-            Edge.none(() -> Kit.park(NET), 6, y -> y.soonestBy(0, 6, 1));
-            Edge.none(() -> Kit.park(ZS + "train a from z to s at 41 takes 24;"), 6, y -> y.soonestBy(0, 0, 1));
-            CageLeave x = Kit.park(ZS + "train a from z to s at 40 takes 24;");
+            Edge.none(() -> Kit.park(Kit.NET), 6, y -> y.soonestBy(3, 0, 0));
+            Edge.none(() -> Kit.park(Kit.NET), 6, y -> y.soonestBy(0, 6, 1));
+            Edge.none(() -> Kit.park(Edge.ZS + "train a from z to s at 41 takes 24;"), 6, y -> y.soonestBy(0, 0, 1));
+            CageLeave x = Kit.park(Edge.ZS + "train a from z to s at 40 takes 24;");
             Kit.is(x, x.soonestBy(0, 40, 1), 0);
             x = Kit.park(Edge.FULL);
             int[] due = {0, 1, 2, 3, 4};
             for (int p = 1; p < 6; p++) { Kit.is(x, x.soonestBy(0, 0, p), due[p - 1]); }
-            x = Kit.park("place z;place y;" + times("train # from z to y at 9 takes 5;", 7) + "train h from z to y at 9 takes 4;");
+            x = Kit.park("place z;place y;" + Edge.times("train # from z to y at 9 takes 5;", 7) + "train h from z to y at 9 takes 4;");
             Kit.is(x, x.soonestBy(0, 0, 1), 7);
         });
     }
 
     private static void latest() {
         Edge.of("Terms 3", "LATEST: the latest HOUR at which one may be at a PLACE still, to be at another one by an HOUR.", () -> {
-            CageLeave x = Kit.park(NET);
+            CageLeave x = Kit.park(Kit.NET);
             Kit.is(x, x.latest(0, 1, 10), 5);
             Kit.none(x, x.latest(0, 1, 9), 6);
             Kit.is(x, x.latest(2, 0, 64), 63);
@@ -477,7 +456,7 @@ final class EdgesOfGuesses {
             Kit.none(x, x.latest(0, 2, 64), 6);
         });
         Edge.of("Promise 39", "LATEST (by an HOUR from 0 to 64; that HOUR itself, if it is the PLACE itself) (1; 6: none from 0 on).", () -> {
-            CageLeave x = Kit.park(NET);
+            CageLeave x = Kit.park(Kit.NET);
             for (int p = 0; p < 4; p++) {
                 for (int by : new int[] {0, 1, 63, 64}) { Kit.is(x, x.latest(p, p, by), by); }
             }
@@ -490,24 +469,24 @@ final class EdgesOfGuesses {
                 Edge.none(1, y -> y.latest(0, 1, by));
                 Edge.none(1, y -> y.latest(0, 0, by));
             }
-            Edge.none(() -> Kit.park(NET), 6, y -> y.latest(0, 1, 9));
-            Edge.none(() -> Kit.park(NET), 6, y -> y.latest(0, 1, 0));
-            Edge.none(() -> Kit.park(NET), 6, y -> y.latest(3, 0, 64));
-            Edge.none(() -> Kit.park(ZS + "train a from z to s at 41 takes 24;"), 6, y -> y.latest(0, 1, 64));
-            x = Kit.park(ZS + "train a from z to s at 40 takes 24;");
+            Edge.none(() -> Kit.park(Kit.NET), 6, y -> y.latest(0, 1, 9));
+            Edge.none(() -> Kit.park(Kit.NET), 6, y -> y.latest(0, 1, 0));
+            Edge.none(() -> Kit.park(Kit.NET), 6, y -> y.latest(3, 0, 64));
+            Edge.none(() -> Kit.park(Edge.ZS + "train a from z to s at 41 takes 24;"), 6, y -> y.latest(0, 1, 64));
+            x = Kit.park(Edge.ZS + "train a from z to s at 40 takes 24;");
             Kit.is(x, x.latest(0, 1, 64), 40);
             Kit.none(x, x.latest(0, 1, 63), 6);
-            x = Kit.park(ZS + "train a from z to s at 0 takes 1;");
+            x = Kit.park(Edge.ZS + "train a from z to s at 0 takes 1;");
             Kit.is(x, x.latest(0, 1, 1), 0);
             Kit.none(x, x.latest(0, 1, 0), 6);
-            x = Kit.park(ZS + "train a from z to s at 63 takes 1;");
+            x = Kit.park(Edge.ZS + "train a from z to s at 63 takes 1;");
             Kit.is(x, x.latest(0, 1, 64), 63);
         });
     }
 
     private static void stay() {
         Edge.of("Terms 3", "STAY at a PLACE: the most HOURS from coming there from PLACE 0 (from HOUR 0 on) till one must leave, to be in PLACE 0 by HOUR 64.", () -> {
-            CageLeave x = Kit.park(ZS + "train a from z to s at 0 takes 1;train b from s to z at 63 takes 1;train c from s to z at 40 takes 24;");
+            CageLeave x = Kit.park(Edge.ZS + "train a from z to s at 0 takes 1;train b from s to z at 63 takes 1;train c from s to z at 40 takes 24;");
             Kit.is(x, x.stay(1), 62);
             x.halt(1, true);
             Kit.is(x, x.stay(1), 39);
@@ -520,16 +499,16 @@ final class EdgesOfGuesses {
         });
         Edge.of("Promise 40", "STAY (1: PLACE 0, too; 6: not there and back).", () -> {
             for (int p : new int[] {-1, 0, 3, Integer.MIN_VALUE, Integer.MAX_VALUE}) { Edge.none(1, y -> y.stay(p)); }
-            Edge.none(() -> Kit.park(NET), 6, y -> y.stay(3));
-            Edge.none(() -> Kit.park(ZS + "train a from z to s at 0 takes 1;"), 6, y -> y.stay(1));
-            Edge.none(() -> Kit.park(ZS + "train a from s to z at 0 takes 1;"), 6, y -> y.stay(1));
-            Edge.none(() -> Kit.park(ZS + "train a from z to s at 9 takes 2;train b from s to z at 10 takes 2;"), 6, y -> y.stay(1));
-            Edge.none(() -> Kit.park(ZS + "train a from z to s at 41 takes 24;train b from s to z at 63 takes 1;"), 6, y -> y.stay(1));
+            Edge.none(() -> Kit.park(Kit.NET), 6, y -> y.stay(3));
+            Edge.none(() -> Kit.park(Edge.ZS + "train a from z to s at 0 takes 1;"), 6, y -> y.stay(1));
+            Edge.none(() -> Kit.park(Edge.ZS + "train a from s to z at 0 takes 1;"), 6, y -> y.stay(1));
+            Edge.none(() -> Kit.park(Edge.ZS + "train a from z to s at 9 takes 2;train b from s to z at 10 takes 2;"), 6, y -> y.stay(1));
+            Edge.none(() -> Kit.park(Edge.ZS + "train a from z to s at 41 takes 24;train b from s to z at 63 takes 1;"), 6, y -> y.stay(1));
             Edge.none(CageLeave::new, 1, y -> y.stay(0));
             Edge.none(CageLeave::new, 1, y -> y.stay(1));
-            CageLeave x = Kit.park(ZS + "train a from z to s at 9 takes 2;train b from s to z at 11 takes 2;");
+            CageLeave x = Kit.park(Edge.ZS + "train a from z to s at 9 takes 2;train b from s to z at 11 takes 2;");
             Kit.is(x, x.stay(1), 0);
-            x = Kit.park(NET);
+            x = Kit.park(Kit.NET);
             Kit.is(x, x.stay(1), 30);
             Kit.is(x, x.stay(2), 59);
         });
@@ -540,7 +519,7 @@ final class EdgesOfGuesses {
             Edge.none(CageLeave::new, 6, y -> y.reach());
             CageLeave x = Kit.park("place z;");
             Kit.is(x, x.reach(), 1);
-            x = Kit.park(times("place #;", 6));
+            x = Kit.park(Edge.times("place #;", 6));
             Kit.is(x, x.reach(), 1);
             x = Kit.park(Edge.FULL);
             Kit.is(x, x.reach(), 63);
@@ -550,7 +529,7 @@ final class EdgesOfGuesses {
             Kit.is(x, x.reach(), 31);
             for (int k = 0; k < 7; k++) { x.halt(k, true); }
             Kit.is(x, x.reach(), 1);
-            x = Kit.park(NET);
+            x = Kit.park(Kit.NET);
             Kit.is(x, x.reach(), 15);
             x.shift(0, 4);
             x.shift(3, 6);
@@ -558,11 +537,11 @@ final class EdgesOfGuesses {
             x.shift(0, 6);
             Kit.is(x, x.reach(), 7);
             // By a TRAIN that comes AT 64, as soonest() says.
-            x = Kit.park(ZS + "train a from z to s at 40 takes 24;");
+            x = Kit.park(Edge.ZS + "train a from z to s at 40 takes 24;");
             Kit.is(x, x.reach(), 3);
             Kit.is(x, x.soonest(0, 0, 1), 64);
             // From HOUR 0 on, whatever HOUR it is.
-            x = at(ZS + "train a from z to s at 0 takes 1;", 64);
+            x = Edge.at(Edge.ZS + "train a from z to s at 0 takes 1;", 64);
             Kit.is(x, x.reach(), 3);
         });
     }
@@ -583,9 +562,9 @@ final class EdgesOfGuesses {
             Kit.is(x, x.cut(2), 1);
             Kit.is(x, x.cutSet(2), 4);
             // By a TRAIN that goes AT 0, by one that comes AT 64.
-            CageLeave y = Kit.park(ZS + "train a from z to s at 0 takes 1;");
+            CageLeave y = Kit.park(Edge.ZS + "train a from z to s at 0 takes 1;");
             Kit.is(y, y.cut(1), 1);
-            y = Kit.park(ZS + "train a from z to s at 40 takes 24;");
+            y = Kit.park(Edge.ZS + "train a from z to s at 40 takes 24;");
             Kit.is(y, y.cut(1), 1);
             Kit.is(y, y.cutSet(1), 1);
             // HALTED more: what is so now is none of them.
@@ -597,17 +576,17 @@ final class EdgesOfGuesses {
         Edge.of("Promise 42", "CUT: how many (1: PLACE 0, too).", () -> {
             for (int p : new int[] {-1, 0, 3, Integer.MIN_VALUE, Integer.MAX_VALUE}) { Edge.none(1, y -> y.cut(p)); }
             Edge.none(CageLeave::new, 1, y -> y.cut(0));
-            CageLeave x = Kit.park(times("place #;", 6));
+            CageLeave x = Kit.park(Edge.times("place #;", 6));
             for (int p = 1; p < 6; p++) { Kit.is(x, x.cut(p), 0); }
             for (int many = 0; many <= 8; many++) {
-                x = Kit.park(ZS + times("train # from z to s at 9 takes 5;", many));
+                x = Kit.park(Edge.ZS + Edge.times("train # from z to s at 9 takes 5;", many));
                 Kit.is(x, x.cut(1), many);
             }
         });
         Edge.of("Promise 43", "CUT: the set of TRAINS (1).", () -> {
             for (int p : new int[] {-1, 0, 3, Integer.MIN_VALUE, Integer.MAX_VALUE}) { Edge.none(1, y -> y.cutSet(p)); }
             Edge.none(CageLeave::new, 1, y -> y.cutSet(0));
-            CageLeave x = Kit.park(ZS + times("train # from z to s at 9 takes 5;", 8));
+            CageLeave x = Kit.park(Edge.ZS + Edge.times("train # from z to s at 9 takes 5;", 8));
             Kit.is(x, x.cutSet(1), 255);
             for (int k = 0; k < 8; k++) {
                 x.halt(k, true);
@@ -635,15 +614,15 @@ final class EdgesOfGuesses {
             Kit.fraction(x, x.snow(2), 0, 1);
             Kit.fraction(x, x.snow(1), 3, 4);
             // By a TRAIN that goes AT 0, by one that comes AT 64.
-            x = Kit.park(ZS + "train a from z to s at 0 takes 1;");
+            x = Kit.park(Edge.ZS + "train a from z to s at 0 takes 1;");
             Kit.fraction(x, x.snow(1), 7, 8);
-            x = Kit.park(ZS + "train a from z to s at 40 takes 24;");
+            x = Kit.park(Edge.ZS + "train a from z to s at 40 takes 24;");
             Kit.fraction(x, x.snow(1), 7, 8);
         });
         Edge.of("Promise 44", "The FRACTION is SNOW of a PLACE (1).", () -> {
             for (int p : new int[] {-1, 3, Integer.MIN_VALUE, Integer.MAX_VALUE}) { Edge.not(1, y -> y.snow(p)); }
             Edge.not(CageLeave::new, 1, y -> y.snow(0));
-            CageLeave x = Kit.park("odds 1;" + ZS + times("train # from z to s at 9 takes 5;", 8));
+            CageLeave x = Kit.park("odds 1;" + Edge.ZS + Edge.times("train # from z to s at 9 takes 5;", 8));
             Kit.fraction(x, x.snow(1), (1L << 32) - 1, 1L << 32);
             Kit.fraction(x, x.snow(0), 1, 1);
             x.rule(15);
@@ -701,7 +680,7 @@ final class EdgesOfGuesses {
             Kit.fraction(x, x.back(0, 0), 1, 1);
             for (int k = 1; k <= 8; k++) { Kit.fraction(x, x.back(0, k), 0, 1); }
             Edge.not(CageLeave::new, 1, y -> y.back(1, 0));
-            x = Kit.park("place z;" + times("beast # trust 1;", 8));
+            x = Kit.park("place z;" + Edge.times("beast # trust 1;", 8));
             Kit.fraction(x, x.back(255, 8), 1, 1L << 32);
             Kit.fraction(x, x.back(255, 0), 1, 1);
             long none = 1;
@@ -750,7 +729,7 @@ final class EdgesOfGuesses {
             Kit.is(x, x.rooms(9, 72), 2);
             Kit.is(x, x.rooms(15, 72), 2);
             // Of a ring of five, three are due.
-            x = Kit.park("place z;" + times("beast #;", 5) + "hunts a b;hunts b c;hunts c d;hunts d e;hunts e a;");
+            x = Kit.park("place z;" + Edge.times("beast #;", 5) + "hunts a b;hunts b c;hunts c d;hunts d e;hunts e a;");
             Kit.is(x, x.rooms(31, 72), 3);
             Kit.is(x, x.rooms(31, 2), 3);
             Kit.is(x, x.rooms(31, 1), 5);
@@ -774,7 +753,7 @@ final class EdgesOfGuesses {
             x = new CageLeave();
             Kit.is(x, x.rooms(0, 1), 0);
             Edge.none(CageLeave::new, 1, y -> y.rooms(1, 1));
-            x = Kit.park("place z;" + times("beast # size 9;", 8));
+            x = Kit.park("place z;" + Edge.times("beast # size 9;", 8));
             Kit.is(x, x.rooms(255, 72), 1);
             Kit.is(x, x.rooms(255, 71), 2);
             Kit.is(x, x.rooms(255, 18), 4);
@@ -808,7 +787,7 @@ final class EdgesOfGuesses {
             Kit.is(x, x.roomSize(4, 1), 1);
             x = new CageLeave();
             Kit.is(x, x.roomSize(0, 1), 1);
-            x = Kit.park("place z;" + times("beast # size 9;", 8));
+            x = Kit.park("place z;" + Edge.times("beast # size 9;", 8));
             int[] size = {72, 36, 27, 18, 18, 18, 18, 9};
             for (int many = 1; many <= 8; many++) { Kit.is(x, x.roomSize(255, many), size[many - 1]); }
             for (int a = 0; a < 8; a++) { for (int b = a + 1; b < 8; b++) { x.hunt(a, b, true); } }

@@ -1,9 +1,5 @@
 /** Sentences of "Terms" 2 and promises 13 to 28. */
 final class EdgesOfHours {
-    private static final String ZS = "place z;place s;";
-    /** Four BEASTS on one TRAIN, that gets to s at 5. */
-    private static final String RIDE = ZS + "train a from z to s at 0 takes 5;beast m out;beast n out;beast o out;beast p out;"
-        + "ticket m a;ticket n a;ticket o a;ticket p a;";
 
     private EdgesOfHours() { }
 
@@ -28,12 +24,6 @@ final class EdgesOfHours {
         mournAndRule();
     }
 
-    private static CageLeave at(String park, int hour) {
-        CageLeave x = Kit.park(park);
-        if (hour > 0) { x.hour(hour); }
-        return x;
-    }
-
     /** Lets HOURS go by in turn: in each, who is EATEN. */
     private static void eatenAre(CageLeave x, int... due) {
         for (int set : due) { Kit.is(x, x.hour(1), set); }
@@ -41,7 +31,7 @@ final class EdgesOfHours {
 
     private static void hours() {
         Edge.of("Terms 2", "An HOUR t (0 to 63) goes by, then it is HOUR t and 1:", () -> {
-            CageLeave x = Kit.park(RIDE);
+            CageLeave x = Kit.park(Edge.RIDE);
             for (int t = 0; t < 64; t++) {
                 Kit.is(x, x.told(5), t);
                 Kit.is(x, x.hour(1), 0);
@@ -55,7 +45,7 @@ final class EdgesOfHours {
         Edge.of("Terms 2", "1. who is on a TRAIN that left at an HOUR to which what it TAKES makes t together, is at the PLACE where it goes TO.", () -> {
             for (int takes : new int[] {1, 2, 24}) {
                 for (int at : new int[] {0, 39}) {
-                    CageLeave x = at(ZS + "train a from z to s at " + at + " takes " + takes + ";beast m out;ticket m a;", at);
+                    CageLeave x = Edge.at(Edge.ZS + "train a from z to s at " + at + " takes " + takes + ";beast m out;ticket m a;", at);
                     Kit.is(x, x.at(0), 0);
                     for (int i = 0; i < takes; i++) {
                         x.hour(1);
@@ -74,20 +64,20 @@ final class EdgesOfHours {
         Edge.of("Terms 2", "2. TRAIN by TRAIN, by numbers, that goes AT t and is not HALTED:", () -> {
             // Both go AT 3: the first one has the BEAST, unless it is HALTED, or goes later.
             String two = "place z;place s;place r;train a from z to s at 3 takes 9;train b from z to r at 3 takes 9;beast m out;ticket m a b;";
-            CageLeave x = at(two, 3);
+            CageLeave x = Edge.at(two, 3);
             Kit.is(x, x.at(0), 0);
             x.hour(1);
             Kit.is(x, x.at(0), 10);
-            x = at(two, 3);
+            x = Edge.at(two, 3);
             x.halt(0, true);
             x.hour(1);
             Kit.is(x, x.at(0), 11);
-            x = at(two, 3);
+            x = Edge.at(two, 3);
             x.halt(0, true);
             x.halt(1, true);
             x.hour(61);
             Kit.is(x, x.at(0), 0);
-            x = at(two, 3);
+            x = Edge.at(two, 3);
             x.halt(0, true);
             x.halt(0, false);
             x.hour(1);
@@ -99,24 +89,24 @@ final class EdgesOfHours {
             // Who comes at 12 gets on what goes AT 12, not on what went AT 11.
             String on = "place z;place s;place r;train a from z to s at 3 takes 9;train b from s to r at 12 takes 1;train c from s to r at 11 takes 1;"
                 + "beast m out;ticket m a b c;";
-            x = at(on, 12);
+            x = Edge.at(on, 12);
             Kit.is(x, x.at(0), 10);
             x.hour(1);
             Kit.is(x, x.at(0), 11);
             x.hour(1);
             Kit.is(x, x.at(0), 2);
             // AT 0 and AT 63 are HOURS as others.
-            x = at(ZS + "train a from z to s at 0 takes 1;beast m out;ticket m a;", 1);
+            x = Edge.at(Edge.ZS + "train a from z to s at 0 takes 1;beast m out;ticket m a;", 1);
             Kit.is(x, x.at(0), 10);
-            x = at(ZS + "train a from z to s at 63 takes 1;beast m out;ticket m a;", 64);
+            x = Edge.at(Edge.ZS + "train a from z to s at 63 takes 1;beast m out;ticket m a;", 64);
             Kit.is(x, x.at(0), 10);
         });
     }
 
     private static void boarding() {
-        String line = ZS + "train a from z to s at 1 takes 1;train b from s to z at 5 takes 1;beast m out;beast n;ticket m a b;ticket n a b;";
+        String line = Edge.ZS + "train a from z to s at 1 takes 1;train b from s to z at 5 takes 1;beast m out;beast n;ticket m a b;ticket n a b;";
         Edge.of("Terms 2", "by numbers, who is at the PLACE it comes FROM, has a TICKET for it (in PLACE 0: is let OUT, too), is not EATEN, gets on,", () -> {
-            CageLeave x = at(line, 2);
+            CageLeave x = Edge.at(line, 2);
             Kit.is(x, x.train(0, 6), 1);
             Kit.is(x, x.there(0), 2);
             x.hour(2);
@@ -124,7 +114,7 @@ final class EdgesOfHours {
             Kit.yes(x, x.let(0, false));
             x.hour(2);
             Kit.is(x, x.at(0), 11);
-            x = at(line, 4);
+            x = Edge.at(line, 4);
             Kit.yes(x, x.ticket(0, 1, false));
             x.hour(60);
             Kit.is(x, x.at(0), 1);
@@ -145,7 +135,7 @@ final class EdgesOfHours {
             x.hour(4);
             Kit.is(x, x.train(1, 6), 1);
             // Let OUT in the very HOUR.
-            x = at(line, 1);
+            x = Edge.at(line, 1);
             Kit.yes(x, x.let(0, false));
             Kit.yes(x, x.let(1, true));
             x.hour(1);
@@ -156,9 +146,9 @@ final class EdgesOfHours {
     private static void seats() {
         Edge.of("Terms 2", "as long as there are SEATS.", () -> {
             for (int seats = 1; seats <= 9; seats++) {
-                StringBuilder s = new StringBuilder(ZS + "train a from z to s at 0 takes 5 seats " + seats + ";train b from z to s at 1 takes 5;");
+                StringBuilder s = new StringBuilder(Edge.ZS + "train a from z to s at 0 takes 5 seats " + seats + ";train b from z to s at 1 takes 5;");
                 for (int i = 0; i < 8; i++) { s.append("beast ").append((char) ('c' + i)).append(" out;ticket ").append((char) ('c' + i)).append(" a b;"); }
-                CageLeave x = at(s.toString(), 1);
+                CageLeave x = Edge.at(s.toString(), 1);
                 int on = (1 << Math.min(8, seats)) - 1;
                 Kit.is(x, x.train(0, 6), on);
                 Kit.is(x, x.there(0), 255 - on);
@@ -166,7 +156,7 @@ final class EdgesOfHours {
                 Kit.is(x, x.train(1, 6), 255 - on);
             }
             // Who has no TICKET takes no SEAT; nor has a TRAIN fewer of them in the next WEEK.
-            CageLeave x = Kit.park(ZS + "train a from z to s at 0 takes 5 seats 1;beast m out;beast n out;ticket n a;");
+            CageLeave x = Kit.park(Edge.ZS + "train a from z to s at 0 takes 5 seats 1;beast m out;beast n out;ticket n a;");
             for (int week = 0; week < 3; week++) {
                 x.hour(1);
                 Kit.is(x, x.train(0, 6), 2);
@@ -175,7 +165,7 @@ final class EdgesOfHours {
             }
         });
         Edge.of("Terms 2", "(Who got on one does not get on another one.", () -> {
-            CageLeave x = at("place z;place s;place r;train a from z to s at 2 takes 1;train b from z to r at 2 takes 1;train c from s to r at 2 takes 1;"
+            CageLeave x = Edge.at("place z;place s;place r;train a from z to s at 2 takes 1;train b from z to r at 2 takes 1;train c from s to r at 2 takes 1;"
                 + "train d from s to r at 3 takes 2;train e from s to z at 3 takes 2;beast m out;ticket m a b c d e;", 3);
             Kit.is(x, x.train(0, 6), 1);
             Kit.is(x, x.told(8), 1);
@@ -186,7 +176,7 @@ final class EdgesOfHours {
             Kit.is(x, x.train(4, 6), 0);
         });
         Edge.of("Terms 2", "A TRAIN carries those who got on at its HOUR; whether it is HALTED later does not matter.)", () -> {
-            CageLeave x = at(RIDE, 1);
+            CageLeave x = Edge.at(Edge.RIDE, 1);
             Kit.yes(x, x.halt(0, true));
             for (int b = 0; b < 4; b++) {
                 x.ticket(b, 0, false);
@@ -203,22 +193,22 @@ final class EdgesOfHours {
         Edge.of("Terms 2", "3. BEAST by BEAST, by numbers, who is not EATEN, is on a TRAIN, or at a PLACE that is not PLACE 0,"
             + " with a BEAST that HUNTS it and is not EATEN:", () -> {
             // On the TRAIN, in its first HOUR.
-            CageLeave x = Kit.park(RIDE + "hunts p m;");
+            CageLeave x = Kit.park(Edge.RIDE + "hunts p m;");
             Kit.is(x, x.hour(1), 1);
             // By numbers: m is EATEN by n ahead of n being EATEN; o lives, since m is EATEN then.
-            x = Kit.park(RIDE + "hunts n m;hunts m o;hunts o n;");
+            x = Kit.park(Edge.RIDE + "hunts n m;hunts m o;hunts o n;");
             Kit.is(x, x.hour(1), 3);
-            x = Kit.park(RIDE + "hunts m n;hunts n o;hunts o p;");
+            x = Kit.park(Edge.RIDE + "hunts m n;hunts n o;hunts o p;");
             Kit.is(x, x.hour(1), 10);
-            x = Kit.park(RIDE + "hunts p o;hunts o n;hunts n m;");
+            x = Kit.park(Edge.RIDE + "hunts p o;hunts o n;hunts n m;");
             Kit.is(x, x.hour(1), 7);
-            x = Kit.park(RIDE + "hunts m n;hunts n m;");
+            x = Kit.park(Edge.RIDE + "hunts m n;hunts n m;");
             Kit.is(x, x.hour(1), 1);
             // In PLACE 0 nobody is EATEN, in the next one all are, in the HOUR in which they come.
-            x = Kit.park(RIDE + "hunts p m;");
+            x = Kit.park(Edge.RIDE + "hunts p m;");
             x.let(3, false);
             Kit.is(x, x.hour(64), 0);
-            x = Kit.park(ZS + "train a from z to s at 0 takes 5;train b from z to s at 1 takes 6;beast m out;beast n out;ticket m a;ticket n b;hunts n m;");
+            x = Kit.park(Edge.ZS + "train a from z to s at 0 takes 5;train b from z to s at 1 takes 6;beast m out;beast n out;ticket m a;ticket n b;hunts n m;");
             eatenAre(x, 0, 0, 0, 0, 0, 0, 0, 1, 0);
             // On the sixth PLACE, on the eighth TRAIN.
             StringBuilder s = new StringBuilder("place z;place y;place x;place w;place v;place u;");
@@ -232,17 +222,17 @@ final class EdgesOfHours {
             Kit.yes(x, x.hunt(1, 0, true));
             Kit.is(x, x.hour(1), 1);
             // Going by each other on two TRAINS, or on a TRAIN that leaves where the other one comes, nobody is.
-            x = Kit.park(ZS + "train a from z to s at 0 takes 5;train b from z to s at 0 takes 6;train c from s to z at 6 takes 9;"
+            x = Kit.park(Edge.ZS + "train a from z to s at 0 takes 5;train b from z to s at 0 takes 6;train c from s to z at 6 takes 9;"
                 + "beast m out;beast n out;ticket m a c;ticket n b;hunts n m;hunts m n;");
             Kit.is(x, x.hour(64), 0);
         });
         Edge.of("Terms 2", "is EATEN (by the first such one).", () -> {
-            CageLeave x = Kit.park(RIDE + "hunts p m;hunts o m;");
+            CageLeave x = Kit.park(Edge.RIDE + "hunts p m;hunts o m;");
             Kit.is(x, x.eater(0), 2);
-            x = Kit.park(RIDE + "hunts p m;hunts n m;hunts o m;");
+            x = Kit.park(Edge.RIDE + "hunts p m;hunts n m;hunts o m;");
             Kit.is(x, x.eater(0), 1);
             // The first one is EATEN already.
-            x = Kit.park(RIDE + "hunts p m;hunts m n;hunts p n;");
+            x = Kit.park(Edge.RIDE + "hunts p m;hunts m n;hunts p n;");
             Kit.is(x, x.eater(1), 3);
             Kit.is(x, x.hour(1), 3);
             Kit.is(x, x.told(7), 3);
@@ -253,28 +243,28 @@ final class EdgesOfHours {
 
     private static void mondays() {
         Edge.of("Terms 2", "At HOUR 64 no HOUR goes by, but a MONDAY:", () -> {
-            CageLeave x = at(RIDE, 64);
+            CageLeave x = Edge.at(Edge.RIDE, 64);
             Kit.none(x, x.hour(1), 4);
             Kit.is(x, x.monday(), 15);
             Kit.is(x, x.hour(1), 0);
-            Edge.none(() -> at(RIDE, 64), 4, y -> y.hour(1));
-            Edge.none(() -> at(RIDE, 63), 7, y -> y.monday());
+            Edge.none(() -> Edge.at(Edge.RIDE, 64), 4, y -> y.hour(1));
+            Edge.none(() -> Edge.at(Edge.RIDE, 63), 7, y -> y.monday());
         });
-        String back = ZS + "train a from z to s at 0 takes 2;";
+        String back = Edge.ZS + "train a from z to s at 0 takes 2;";
         Edge.of("Terms 2", "who is not EATEN, and not in PLACE 0 (what arrives AT 64: is there just then), is LATE once more;", () -> {
             // AT 63, AT 64, AT 65.
             int[] takes = {3, 4, 5, 24};
             for (int i = 0; i < 4; i++) {
-                CageLeave x = at(back + "train b from s to z at 60 takes " + takes[i] + ";beast m out;ticket m a b;", 64);
+                CageLeave x = Edge.at(back + "train b from s to z at 60 takes " + takes[i] + ";beast m out;ticket m a b;", 64);
                 Kit.is(x, x.at(0), i == 0 ? 0 : 11);
                 Kit.is(x, x.monday(), i < 2 ? 0 : 1);
                 Kit.is(x, x.beast(0, 4), i < 2 ? 0 : 1);
             }
             // What arrives AT 64 elsewhere than in PLACE 0 is LATE.
-            CageLeave x = at(ZS + "train a from z to s at 63 takes 1;beast m out;beast n;ticket m a;ticket n a;", 64);
+            CageLeave x = Edge.at(Edge.ZS + "train a from z to s at 63 takes 1;beast m out;beast n;ticket m a;ticket n a;", 64);
             Kit.is(x, x.monday(), 1);
             // Who is EATEN is not LATE, but stays so.
-            x = at(RIDE + "hunts m n;", 64);
+            x = Edge.at(Edge.RIDE + "hunts m n;", 64);
             Kit.is(x, x.monday(), 13);
             Kit.is(x, x.beast(1, 4), 0);
             Kit.is(x, x.beast(1, 3), 1);
@@ -285,7 +275,7 @@ final class EdgesOfHours {
             }
         });
         Edge.of("Terms 2", "all of these are in PLACE 0; the WEEK is 1 more (to 999), HOUR 0.", () -> {
-            CageLeave x = at(back + "train b from s to z at 63 takes 24;beast m out;beast n out;ticket m a;ticket n a b;", 64);
+            CageLeave x = Edge.at(back + "train b from s to z at 63 takes 24;beast m out;beast n out;ticket m a;ticket n a b;", 64);
             Kit.is(x, x.at(0), 1);
             Kit.is(x, x.at(1), 11);
             Kit.is(x, x.monday(), 3);
@@ -311,7 +301,7 @@ final class EdgesOfHours {
             Kit.is(x, x.told(5), 64);
         });
         Edge.of("Terms 2", "TICKETS, OUT, HALTED stay.", () -> {
-            CageLeave x = Kit.park(RIDE);
+            CageLeave x = Kit.park(Edge.RIDE);
             x.halt(0, true);
             x.let(1, false);
             x.ticket(2, 0, false);
@@ -340,18 +330,18 @@ final class EdgesOfHours {
 
     private static void together() {
         Edge.of("Terms 2", "TOGETHER are two BEASTS, not EATEN, on one TRAIN, or at one PLACE but PLACE 0.", () -> {
-            CageLeave x = Kit.park(RIDE);
+            CageLeave x = Kit.park(Edge.RIDE);
             Kit.is(x, x.together(0, 3), 0);
             x.hour(1);
             Kit.is(x, x.together(0, 3), 1);
             Kit.is(x, x.together(3, 0), 1);
             x.hour(5);
             Kit.is(x, x.together(0, 3), 1);
-            x = at(RIDE + "hunts m n;", 1);
+            x = Edge.at(Edge.RIDE + "hunts m n;", 1);
             Kit.is(x, x.together(0, 1), 0);
             Kit.is(x, x.together(1, 0), 0);
             Kit.is(x, x.together(0, 2), 1);
-            x = at(RIDE + "hunts m n;hunts o p;", 9);
+            x = Edge.at(Edge.RIDE + "hunts m n;hunts o p;", 9);
             Kit.is(x, x.together(1, 3), 0);
             Kit.is(x, x.together(0, 2), 1);
             // Where there are as many PLACES, TRAINS, BEASTS as may be.
@@ -363,7 +353,7 @@ final class EdgesOfHours {
             Kit.is(x, x.together(5, 7), 0);
             Kit.is(x, x.together(1, 6), 1);
             // Two TRAINS of one way; one in PLACE 1, one on TRAIN 1; one in PLACE 0, one on TRAIN 0.
-            x = at(ZS + "train a from z to s at 0 takes 1;train b from z to s at 0 takes 9;beast m out;beast n out;beast o;ticket m a;ticket n b;", 1);
+            x = Edge.at(Edge.ZS + "train a from z to s at 0 takes 1;train b from z to s at 0 takes 9;beast m out;beast n out;beast o;ticket m a;ticket n b;", 1);
             Kit.is(x, x.together(0, 1), 0);
             Kit.is(x, x.together(0, 2), 0);
             x.hour(1);
@@ -396,7 +386,7 @@ final class EdgesOfHours {
             Kit.is(x, x.told(9), 255);
             x.hour(1);
             Kit.is(x, x.told(8), 0);
-            x = at(Edge.FULL, 1);
+            x = Edge.at(Edge.FULL, 1);
             Kit.is(x, x.told(8), 255);
             x.hour(1);
             Kit.is(x, x.told(8), 254);
@@ -404,15 +394,15 @@ final class EdgesOfHours {
             Kit.is(x, x.told(8), 128);
             Kit.is(x, x.told(7), 0);
             // All but the last are EATEN.
-            StringBuilder s = new StringBuilder(ZS + "train a from z to s at 0 takes 5;");
+            StringBuilder s = new StringBuilder(Edge.ZS + "train a from z to s at 0 takes 5;");
             for (int i = 0; i < 8; i++) { s.append("beast ").append((char) ('b' + i)).append(" out;ticket ").append((char) ('b' + i)).append(" a;"); }
             for (int i = 0; i < 7; i++) { s.append("hunts i ").append((char) ('b' + i)).append(";"); }
-            x = at(s.toString(), 1);
+            x = Edge.at(s.toString(), 1);
             Kit.is(x, x.told(7), 127);
             Kit.is(x, x.told(8), 128);
         });
         Edge.of("Promise 13", "how often BEASTS were LATE, together (10) (1).", () -> {
-            CageLeave x = Kit.park(RIDE);
+            CageLeave x = Kit.park(Edge.RIDE);
             for (int week = 0; week <= 3; week++) {
                 Kit.is(x, x.told(10), 4 * week);
                 x.hour(64);
@@ -447,7 +437,7 @@ final class EdgesOfHours {
             Kit.is(x, x.train(0, 5), 0);
             x.halt(7, false);
             Kit.is(x, x.train(7, 5), 0);
-            x = at(Edge.FULL, 1);
+            x = Edge.at(Edge.FULL, 1);
             for (int k = 0; k < 8; k++) { Kit.is(x, x.train(k, 6), 1 << k); }
             for (int k : new int[] {-1, 5, Integer.MIN_VALUE, Integer.MAX_VALUE}) { Edge.none(1, y -> y.train(k, 0)); }
             for (int what : new int[] {-1, 7, Integer.MIN_VALUE, Integer.MAX_VALUE}) { Edge.none(1, y -> y.train(4, what)); }
@@ -505,7 +495,7 @@ final class EdgesOfHours {
             Edge.none(() -> Kit.park(Edge.FULL), 1, y -> y.there(6));
         });
         Edge.of("Promise 18", "1 if two BEASTS are TOGETHER, else 0 (1: one and itself, too).", () -> {
-            CageLeave x = at(RIDE, 1);
+            CageLeave x = Edge.at(Edge.RIDE, 1);
             for (int a = 0; a < 4; a++) {
                 for (int b = 0; b < 4; b++) {
                     if (a == b) { Kit.none(x, x.together(a, b), 1); } else { Kit.is(x, x.together(a, b), 1); }
@@ -535,7 +525,7 @@ final class EdgesOfHours {
             Kit.is(x, x.hour(1), 2);
             Kit.is(x, x.hour(51), 0);
             // Who is EATEN one HOUR after the other; who was EATEN ahead of it is none of them.
-            String s = RIDE + "train b from z to s at 1 takes 5;train c from z to s at 2 takes 5;ticket o b;ticket p c;hunts m o;hunts n p;";
+            String s = Edge.RIDE + "train b from z to s at 1 takes 5;train c from z to s at 2 takes 5;ticket o b;ticket p c;hunts m o;hunts n p;";
             x = Kit.park(s);
             Kit.is(x, x.hour(6), 0);
             Kit.is(x, x.hour(1), 4);
@@ -545,15 +535,15 @@ final class EdgesOfHours {
             Kit.is(x, x.told(5), 8);
             for (int many : new int[] {0, -1, 65, Integer.MIN_VALUE, Integer.MAX_VALUE}) {
                 Edge.none(1, y -> y.hour(many));
-                Edge.none(() -> at(RIDE, 64), 1, y -> y.hour(many));
+                Edge.none(() -> Edge.at(Edge.RIDE, 64), 1, y -> y.hour(many));
                 Edge.none(CageLeave::new, 1, y -> y.hour(many));
             }
         });
         Edge.of("Promise 19", "(1; 4: above HOUR 64).", () -> {
             for (int now : new int[] {1, 2, 32, 62, 63, 64}) {
-                Edge.none(() -> at(RIDE, now), 4, y -> y.hour(65 - now));
-                Edge.none(() -> at(RIDE, now), 4, y -> y.hour(64));
-                CageLeave x = at(RIDE, now);
+                Edge.none(() -> Edge.at(Edge.RIDE, now), 4, y -> y.hour(65 - now));
+                Edge.none(() -> Edge.at(Edge.RIDE, now), 4, y -> y.hour(64));
+                CageLeave x = Edge.at(Edge.RIDE, now);
                 if (now < 64) { Kit.is(x, x.hour(64 - now), 0); }
                 Kit.is(x, x.told(5), 64);
             }
@@ -562,7 +552,7 @@ final class EdgesOfHours {
 
     private static void monday() {
         Edge.of("Promise 20", "MONDAY: the set of those that are LATE", () -> {
-            CageLeave x = at(RIDE, 64);
+            CageLeave x = Edge.at(Edge.RIDE, 64);
             Kit.is(x, x.monday(), 15);
             x.let(0, false);
             x.let(3, false);
@@ -571,14 +561,14 @@ final class EdgesOfHours {
             x.halt(0, true);
             x.hour(64);
             Kit.is(x, x.monday(), 0);
-            x = at(Edge.FULL, 64);
+            x = Edge.at(Edge.FULL, 64);
             Kit.is(x, x.monday(), 255);
-            x = at("", 64);
+            x = Edge.at("", 64);
             Kit.is(x, x.monday(), 0);
         });
         Edge.of("Promise 20", "(7: ahead of HOUR 64; 4: WEEK 999).", () -> {
-            for (int now : new int[] {0, 1, 63}) { Edge.none(() -> at(RIDE, now), 7, y -> y.monday()); }
-            Edge.none(() -> at("", 63), 7, y -> y.monday());
+            for (int now : new int[] {0, 1, 63}) { Edge.none(() -> Edge.at(Edge.RIDE, now), 7, y -> y.monday()); }
+            Edge.none(() -> Edge.at("", 63), 7, y -> y.monday());
             Edge.none(EdgesOfHours::lastMonday, 4, y -> y.monday());
             CageLeave x = lastWeek(998);
             Kit.none(x, x.monday(), 7);
@@ -697,17 +687,17 @@ final class EdgesOfHours {
             }
             for (int k : new int[] {-1, 5, Integer.MIN_VALUE, Integer.MAX_VALUE}) { Edge.not(1, y -> y.shift(k, 1)); }
             // In the HOUR that is next it goes, in one that is gone it does not.
-            String one = ZS + "train a from z to s at 40 takes 1;beast m out;ticket m a;";
-            x = at(one, 9);
+            String one = Edge.ZS + "train a from z to s at 40 takes 1;beast m out;ticket m a;";
+            x = Edge.at(one, 9);
             Kit.yes(x, x.shift(0, 8));
             x.hour(55);
             Kit.is(x, x.at(0), 0);
-            x = at(one, 9);
+            x = Edge.at(one, 9);
             Kit.yes(x, x.shift(0, 9));
             x.hour(1);
             Kit.is(x, x.at(0), 10);
             // In the next WEEK, too.
-            x = at(one, 9);
+            x = Edge.at(one, 9);
             Kit.yes(x, x.shift(0, 8));
             x.hour(55);
             x.monday();
@@ -720,14 +710,14 @@ final class EdgesOfHours {
             Edge.not(7, y -> y.shift(1, 0));
             for (int now = 1; now <= 5; now++) {
                 int hour = now;
-                Edge.not(() -> at(RIDE, hour), 7, y -> y.shift(0, 9));
+                Edge.not(() -> Edge.at(Edge.RIDE, hour), 7, y -> y.shift(0, 9));
             }
-            CageLeave x = at(RIDE, 6);
+            CageLeave x = Edge.at(Edge.RIDE, 6);
             Kit.yes(x, x.shift(0, 9));
-            x = Kit.park(RIDE);
+            x = Kit.park(Edge.RIDE);
             Kit.yes(x, x.shift(0, 9));
             // At HOUR 64 who came just then is on it still; behind the MONDAY it is empty.
-            x = at(ZS + "train a from z to s at 63 takes 1;beast m out;ticket m a;", 64);
+            x = Edge.at(Edge.ZS + "train a from z to s at 63 takes 1;beast m out;ticket m a;", 64);
             Kit.not(x, x.shift(0, 0), 7);
             x.monday();
             Kit.yes(x, x.shift(0, 0));
@@ -772,13 +762,13 @@ final class EdgesOfHours {
             Kit.is(x, x.beast(1, 3), 0);
             Kit.not(x, x.mourn(1), 7);
             // Who is in PLACE 0 already stays there.
-            x = at("place z;place s;train a from z to s at 0 takes 5;beast m out;beast n out;beast o;beast p out;"
+            x = Edge.at("place z;place s;train a from z to s at 0 takes 5;beast m out;beast n out;beast o;beast p out;"
                 + "ticket m a;ticket n a;hunts m n;", 9);
             Kit.is(x, x.there(0), 12);
             Kit.yes(x, x.mourn(1));
             Kit.is(x, x.there(0), 14);
             // In the midst of a WEEK it goes on from PLACE 0.
-            x = at(RIDE + "train b from z to s at 9 takes 1;ticket n a b;hunts m n;", 5);
+            x = Edge.at(Edge.RIDE + "train b from z to s at 9 takes 1;ticket n a b;hunts m n;", 5);
             Kit.is(x, x.told(7), 2);
             Kit.yes(x, x.mourn(1));
             Kit.is(x, x.hour(5), 0);

@@ -35,12 +35,6 @@ final class EdgesOfTexts {
 
     private static CageLeave good(String text) { return Kit.park(text); }
 
-    private static String times(String part, int many) {
-        StringBuilder s = new StringBuilder();
-        for (int i = 0; i < many; i++) { s.append(part.replace('#', (char) ('a' + i))); }
-        return s.toString();
-    }
-
     private static String blanks(int many) { return " ".repeat(many); }
 
     private static void tokens() {
@@ -98,8 +92,7 @@ final class EdgesOfTexts {
             good(text);
             return;
         }
-        boolean begins = c >= 'a' && c <= 'z' || c >= '0' && c <= '9' || c == ';' || c == '<' || c == '>' || c == '=';
-        bad(text, begins ? 2 : 1, 7);
+        bad(text, Edge.begins(c) ? 2 : 1, 7);
     }
 
     private static void words() {
@@ -131,8 +124,7 @@ final class EdgesOfTexts {
             }
             for (int c = 0; c < 256; c++) {
                 boolean digit = c >= '0' && c <= '9';
-                boolean begins = c >= 'a' && c <= 'z' || c == '<' || c == '>' || c == '=';
-                if (!digit && c != 10 && c != 32 && c != ';') { bad("odds 1" + (char) c, begins ? 2 : 1, 6); }
+                if (!digit && c != 10 && c != 32 && c != ';') { bad("odds 1" + (char) c, Edge.begins(c) ? 2 : 1, 6); }
             }
             bad("odds 9999;", 4, 5);
             bad("odds 00007;", 1, 5);
@@ -203,7 +195,7 @@ final class EdgesOfTexts {
         Edge.of("Terms 1", "or ticket NAME {NAME} ;", () -> {
             part(ALL, "ticket b ;");
             part(ALL, "ticket b t ;");
-            String eight = PQ + times("train # from p to q at 5 takes 5;", 8) + "beast z;";
+            String eight = PQ + Edge.times("train # from p to q at 5 takes 5;", 8) + "beast z;";
             part(eight, "ticket z a b c d e f g h ;");
             CageLeave x = good(eight + "ticket z h g f e d c b a;");
             Kit.is(x, x.beast(0, 5), 255);
@@ -236,7 +228,7 @@ final class EdgesOfTexts {
             good("place a;place z;place abcdefgh;place zzzzzzzz;");
             bad("place ", 2, "abcdefghi;");
             bad("place ", 2, "zzzzzzzzz;");
-            bad("place ", 2, times("abcdefghij", 30) + ";");
+            bad("place ", 2, Edge.times("abcdefghij", 30) + ";");
             // All of the letters tell NAMES apart.
             CageLeave x = good("place aaaaaaaa;place aaaaaaab;place baaaaaaa;place aaaaaaa;place a;place aa;");
             Kit.is(x, x.told(0), 6);
@@ -272,11 +264,11 @@ final class EdgesOfTexts {
             CageLeave x = good(ALL + "hunts b c;");
             Kit.is(x, x.beast(0, 6), 2);
             Kit.is(x, x.beast(1, 6), 0);
-            x = good(PQ + times("beast #;", 8) + "hunts a h;hunts h a;hunts h g;");
+            x = good(PQ + Edge.times("beast #;", 8) + "hunts a h;hunts h a;hunts h g;");
             Kit.is(x, x.beast(0, 6), 128);
             Kit.is(x, x.beast(7, 6), 65);
             // Nobody at first, whatever the PARK ahead told.
-            Kit.is(x, Kit.tellPark(x, PQ + times("beast #;", 8)), 8);
+            Kit.is(x, Kit.tellPark(x, PQ + Edge.times("beast #;", 8)), 8);
             for (int b = 0; b < 8; b++) { Kit.is(x, x.beast(b, 6), 0); }
         });
         Edge.of("Terms 1", "TICKET: a BEAST has TICKETS for TRAINS (none at first; told again: the latest).", () -> {
@@ -332,7 +324,7 @@ final class EdgesOfTexts {
         });
         String t = PQ + "train t from p to q ";
         Edge.of("Terms 1", "FROM a PLACE TO another one,", () -> {
-            String six = times("place #;", 6);
+            String six = Edge.times("place #;", 6);
             for (int from = 0; from < 6; from++) {
                 for (int to = 0; to < 6; to++) {
                     String text = six + "train t from " + (char) ('a' + from) + " to ";
@@ -404,11 +396,11 @@ final class EdgesOfTexts {
     private static void many() {
         Edge.of("Terms 1", "PLACES, at most 6: PLACE 0 is the cages.", () -> {
             for (int many = 0; many <= 6; many++) {
-                CageLeave x = good(times("place #;", many));
+                CageLeave x = good(Edge.times("place #;", many));
                 Kit.is(x, x.told(0), many);
                 Kit.none(x, x.there(many), 1);
             }
-            bad(times("place #;", 6), 6, "place x;");
+            bad(Edge.times("place #;", 6), 6, "place x;");
             CageLeave x = good("place p;place q;beast b;");
             Kit.is(x, x.there(0), 1);
             Kit.is(x, x.there(1), 0);
@@ -416,21 +408,21 @@ final class EdgesOfTexts {
         Edge.of("Terms 1", "TRAINS, at most 8:", () -> {
             String train = "train # from p to q at 5 takes 5;";
             for (int many = 0; many <= 8; many++) {
-                CageLeave x = good(PQ + times(train, many));
+                CageLeave x = good(PQ + Edge.times(train, many));
                 Kit.is(x, x.told(1), many);
                 Kit.none(x, x.train(many, 0), 1);
             }
-            bad(PQ + times(train, 8), 6, "train x from p to q at 5 takes 5;");
+            bad(PQ + Edge.times(train, 8), 6, "train x from p to q at 5 takes 5;");
         });
         Edge.of("Terms 1", "BEASTS, at most 8:", () -> {
             for (int many = 0; many <= 8; many++) {
                 CageLeave x = new CageLeave();
-                Kit.is(x, Kit.tellPark(x, PQ + times("beast #;", many)), many);
+                Kit.is(x, Kit.tellPark(x, PQ + Edge.times("beast #;", many)), many);
                 Kit.is(x, x.told(2), many);
                 Kit.is(x, x.there(0), (1 << many) - 1);
                 Kit.none(x, x.beast(many, 0), 1);
             }
-            bad(PQ + times("beast #;", 8), 6, "beast x;");
+            bad(PQ + Edge.times("beast #;", 8), 6, "beast x;");
         });
     }
 
@@ -606,7 +598,7 @@ final class EdgesOfTexts {
 
     private static void faultSix() {
         Edge.of("Terms 1", "6 a seventh place, a ninth train, a ninth beast (at that WORD).", () -> {
-            String[] full = {times("place #;", 6), PQ + times("train # from p to q at 5 takes 5;", 8), PQ + times("beast #;", 8)};
+            String[] full = {Edge.times("place #;", 6), PQ + Edge.times("train # from p to q at 5 takes 5;", 8), PQ + Edge.times("beast #;", 8)};
             String[] word = {"place", "train", "beast"};
             for (int i = 0; i < 3; i++) {
                 good(full[i]);
@@ -699,7 +691,7 @@ final class EdgesOfTexts {
                 Kit.due(x.feed(0, 0, 0, 0, 0), 20);
             }
             CageLeave x = new CageLeave();
-            Kit.is(x, Kit.tellPark(x, PQ + times("beast #;", 8)), 8);
+            Kit.is(x, Kit.tellPark(x, PQ + Edge.times("beast #;", 8)), 8);
         });
         Edge.of("Promise 10", "(1: n below 0, or more than the tape has, too;", () -> {
             for (int n : new int[] {-1, 21, Integer.MIN_VALUE, Integer.MAX_VALUE}) { Edge.none(1, x -> x.park(n)); }
@@ -709,7 +701,7 @@ final class EdgesOfTexts {
             Edge.none(CageLeave::new, 1, y -> y.park(-1));
         });
         Edge.of("Promise 10", "9: the old one stays).", () -> {
-            for (String text : new String[] {"?", "=", "beast b;", "odds 17;", "odds 1;odds 1;", times("place #;", 7)}) {
+            for (String text : new String[] {"?", "=", "beast b;", "odds 17;", "odds 1;odds 1;", Edge.times("place #;", 7)}) {
                 CageLeave x = Edge.rich();
                 CageLeave y = Edge.rich();
                 x.weeks(0);
@@ -724,7 +716,7 @@ final class EdgesOfTexts {
     private static void fault() {
         Edge.of("Promise 12", "Of the latest park() or weeks() with STATUS 0 or 9, what 0: the FAULT (0 without one), 1: its place (NONE without).", () -> {
             CageLeave x = new CageLeave();
-            String[] wrong = {"?", "odds =", "place p;place p;", "odds 17;", "odds 2;odds", times("place #;", 7)};
+            String[] wrong = {"?", "odds =", "place p;place p;", "odds 17;", "odds 2;odds", Edge.times("place #;", 7)};
             int[] place = {0, 5, 14, 5, 7, 48};
             for (int i = 0; i < 6; i++) {
                 Kit.none(x, Kit.tellPark(x, wrong[i]), 9);

@@ -1,6 +1,5 @@
 /** Sentences of "Terms" 4, promises 11 and 53 to 57. */
 final class EdgesOfWeeks {
-    private static final String ZS = "place z;place s;";
     /** 299 STEPS without any HOUR; t is let OUT by the last of its rounds. */
     private static final String LONG = "loop 99;any;let t;any;end;any;";
 
@@ -72,8 +71,7 @@ final class EdgesOfWeeks {
             good(text);
             return;
         }
-        boolean begins = c >= 'a' && c <= 'z' || c >= '0' && c <= '9' || c == ';' || c == '<' || c == '>' || c == '=';
-        bad(text, begins ? 2 : 1, 4);
+        bad(text, Edge.begins(c) ? 2 : 1, 4);
     }
 
     private static void grammar() {
@@ -397,7 +395,7 @@ final class EdgesOfWeeks {
             CageLeave x = Kit.weeks("place p;beast b;", "any;hour 1;any;");
             Kit.is(x, x.live(5), 3);
             livedIs(x, 2, 1, 0, 0, 0);
-            x = Kit.weeks(ZS + "train a from z to s at 0 takes 1;", "any;");
+            x = Kit.weeks(Edge.ZS + "train a from z to s at 0 takes 1;", "any;");
             Kit.is(x, x.live(5), 1);
             livedIs(x, 0, 0, 0, 0, 0);
         });

@@ -9,6 +9,12 @@ final class Kit {
         + "beast l size 5 trust 8 out;beast g size 2 trust 12 out;beast t trust 16;"
         + "hunts l g;ticket l a d;ticket g b c;ticket t b e;";
 
+    /** Two ways to s, one to r and back; o can't be left; r to s arrives too late. */
+    static final String NET = "odds 8;place z;place s;place r;place o;train a from z to s at 5 takes 5;"
+        + "train b from z to r at 2 takes 2;train c from r to z at 4 takes 1;train d from z to s at 5 takes 5;"
+        + "train e from s to o at 10 takes 24;train f from s to z at 40 takes 24;train g from r to s at 63 takes 2;"
+        + "train h from r to z at 63 takes 1;";
+
     private static int wrong = 0;
     private static int asked = 0;
     private static String promise = "";

@@ -1,11 +1,5 @@
 /** Promises 29 to 51. */
 public final class WouldBeTests {
-    /** A net: z to s, r by several trains; o can't be left; a train that arrives too late. */
-    private static final String NET = "odds 8;place z;place s;place r;place o;train a from z to s at 5 takes 5;"
-        + "train b from z to r at 2 takes 2;train c from r to z at 4 takes 1;train d from z to s at 5 takes 5;"
-        + "train e from s to o at 10 takes 24;train f from s to z at 40 takes 24;train g from r to s at 63 takes 2;"
-        + "train h from r to z at 63 takes 1;";
-
     public static void main(String[] args) {
         where();
         eaten();
@@ -185,7 +179,7 @@ public final class WouldBeTests {
 
     private static void soonest() {
         Kit.promise("promise 37");
-        CageLeave x = Kit.park(NET);
+        CageLeave x = Kit.park(Kit.NET);
         Kit.none(x, x.soonest(4, 0, 0), 1);
         Kit.none(x, x.soonest(0, 0, 4), 1);
         Kit.none(x, x.soonest(-1, 0, 0), 1);
@@ -227,7 +221,7 @@ public final class WouldBeTests {
 
     private static void soonestBy() {
         Kit.promise("promise 38");
-        CageLeave x = Kit.park(NET);
+        CageLeave x = Kit.park(Kit.NET);
         Kit.none(x, x.soonestBy(4, 0, 0), 1);
         Kit.none(x, x.soonestBy(0, 0, -1), 1);
         Kit.none(x, x.soonestBy(0, 64, 0), 1);
@@ -249,7 +243,7 @@ public final class WouldBeTests {
 
     private static void latest() {
         Kit.promise("promise 39");
-        CageLeave x = Kit.park(NET);
+        CageLeave x = Kit.park(Kit.NET);
         Kit.none(x, x.latest(4, 0, 1), 1);
         Kit.none(x, x.latest(0, 4, 1), 1);
         Kit.none(x, x.latest(-1, 0, 1), 1);
@@ -276,7 +270,7 @@ public final class WouldBeTests {
 
     private static void stay() {
         Kit.promise("promise 40");
-        CageLeave x = Kit.park(NET);
+        CageLeave x = Kit.park(Kit.NET);
         Kit.none(x, x.stay(0), 1);
         Kit.none(x, x.stay(4), 1);
         Kit.none(x, x.stay(-1), 1);
@@ -302,7 +296,7 @@ public final class WouldBeTests {
         Kit.none(x, x.reach(), 6);
         x = Kit.park("place z;");
         Kit.is(x, x.reach(), 1);
-        x = Kit.park(NET);
+        x = Kit.park(Kit.NET);
         Kit.is(x, x.reach(), 15);
         x.hour(30);
         Kit.is(x, x.reach(), 15);
@@ -325,7 +319,7 @@ public final class WouldBeTests {
 
     private static void cut() {
         Kit.promise("promises 42, 43");
-        CageLeave x = Kit.park(NET);
+        CageLeave x = Kit.park(Kit.NET);
         for (int place : new int[] {0, 4, -1}) {
             Kit.none(x, x.cut(place), 1);
             Kit.none(x, x.cutSet(place), 1);
@@ -348,7 +342,7 @@ public final class WouldBeTests {
 
     private static void snow() {
         Kit.promise("promise 44");
-        CageLeave x = Kit.park(NET);
+        CageLeave x = Kit.park(Kit.NET);
         Kit.not(x, x.snow(4), 1);
         Kit.not(x, x.snow(-1), 1);
         Kit.fraction(x, x.snow(0), 1, 1);
